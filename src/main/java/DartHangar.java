@@ -54,6 +54,8 @@ public final class DartHangar {
 
     private static final int[] SINES = {
         0, 98, 195, 290, 383, 471, 556, 634, 707, 773, 831, 882, 924, 957, 981, 995, 1000};
+    /** By how much each SINE is above the one before it. */
+    private static final int[] RISES = {98, 97, 95, 93, 88, 85, 78, 73, 66, 58, 51, 42, 33, 24, 14, 5};
     private static final int ROUND = 64;
     private static final int HALF = 32;
     private static final int QUARTER = 16;
@@ -248,10 +250,11 @@ public final class DartHangar {
         needEars(ears);
         needWithin(speed, LEAST_SPEED, MOST_SPEED);
         int bestSlant = -MOST_SLANT;
-        int most = flight.result(ears, speed, bestSlant, lasts);
-        for (int s = 1 - MOST_SLANT; s <= MOST_SLANT; s++) {
-            int got = flight.result(ears, speed, s, lasts);
-            if (got > most) {
+        int most = 0;
+        for (int s = -MOST_SLANT; s <= MOST_SLANT; s++) {
+            flight.flyOut(ears, speed, s);
+            int got = flight.score(lasts);
+            if (s == -MOST_SLANT || got > most) {
                 most = got;
                 bestSlant = s;
             }
@@ -717,8 +720,8 @@ public final class DartHangar {
     private long reachOf(Rows throwing, int ears, boolean lasts) {
         long sum = 0;
         for (int i = 0; i < throwing.many; i++) {
-            long got = flight.result(ears, throwing.get(i, 0), throwing.get(i, 1), lasts);
-            sum += throwing.get(i, 2) * got;
+            flight.flyOut(ears, throwing.get(i, 0), throwing.get(i, 1));
+            sum += throwing.get(i, 2) * flight.score(lasts);
         }
         return sum;
     }
@@ -781,8 +784,8 @@ public final class DartHangar {
             }
             int ears = now.entries.get(e, 1);
             for (int i = 0; i < throwing.many && i < THROWS && e < ENTRIES; i++) {
-                fars[e * THROWS + i] =
-                    flight.result(ears, throwing.get(i, 0), throwing.get(i, 1), false);
+                flight.flyOut(ears, throwing.get(i, 0), throwing.get(i, 1));
+                fars[e * THROWS + i] = flight.x;
             }
         }
         return true;
@@ -832,20 +835,15 @@ public final class DartHangar {
     }
 
     /**
-     * What a step from a direction k (0 to 15) to the next one adds to ax COS + ay SIN.
-     * It falls as k grows, for the SINES bend one way only: so the greatest can be sought by halves.
+     * Of 0 to 16 the first with the greatest ax COS + ay SIN, for ax, ay of 0 or more. What a step
+     * further adds falls from step to step, for the RISES do: so it can be sought by halves.
      */
-    private static int gain(int ax, int ay, int k) {
-        return ay * (SINES[k + 1] - SINES[k]) - ax * (SINES[QUARTER - k] - SINES[QUARTER - 1 - k]);
-    }
-
-    /** Of 0 to 16 the first with the greatest ax COS + ay SIN, for ax, ay of 0 or more. */
     private static int steepness(int ax, int ay) {
         int low = 0;
         int high = QUARTER;
         for (int i = 0; i < QUARTER && low < high; i++) {
             int middle = (low + high) / 2;
-            if (gain(ax, ay, middle) > 0) {
+            if (ay * RISES[middle] > ax * RISES[QUARTER - 1 - middle]) {
                 low = middle + 1;
             } else {
                 high = middle;
@@ -868,7 +866,7 @@ public final class DartHangar {
             return 0;
         }
         // In the two mirrored quarters the later one of like steps is the lesser direction.
-        if (k < QUARTER && gain(ax, ay, k) == 0) {
+        if (k < QUARTER && ay * RISES[k] == ax * RISES[QUARTER - 1 - k]) {
             k++;
         }
         return vx < 0 ? HALF - k : ROUND - k;
@@ -1210,9 +1208,8 @@ public final class DartHangar {
             }
         }
 
-        /** LONG of a whole FLIGHT, if it is to last, or FAR. */
-        int result(int withEars, int speed, int slant, boolean lasts) {
-            flyOut(withEars, speed, slant);
+        /** What a FLIGHT is judged by: LONG, if it is to last, or FAR. */
+        int score(boolean lasts) {
             return lasts ? ticks : x;
         }
 
