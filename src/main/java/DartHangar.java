@@ -337,7 +337,8 @@ public final class DartHangar {
         int bestWay = NONE;
         long most = 0;
         for (int i = 0; i < now.wayCount; i++) {
-            if (breakOf(now.wayAt(i)) != NONE) {
+            Rows folds = now.wayAt(i);
+            if (folds == null || breakOf(folds) != NONE) {
                 continue;
             }
             long got = reachOf(throwing, bestEarsOf(throwing, lasts), lasts);
@@ -609,10 +610,11 @@ public final class DartHangar {
     }
 
     private Tray needTray(int tray) {
-        if (tray < 0 || tray >= TRAYS) {
+        Tray row = tray >= 0 && tray < TRAYS ? trays[tray] : null;
+        if (row == null) {
             throw new NoSuchElementException("no such TRAY");
         }
-        return trays[tray];
+        return row;
     }
 
     private static void needThere(Tray row) {

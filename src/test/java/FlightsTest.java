@@ -179,12 +179,28 @@ public final class FlightsTest {
         slow.crate(500 * 19, 9999);
         check.due(-1, slow.fly(0, 9, 500, 0, 5), "19 TICKS are not");
         slow.still();
+        loopsOf("turn 71;slow 1;", 100, 26, -1024, 1);
+        loopsOf("turn 78;slow 1;", 350, 6, -1023, 0);
         // pull 1 makes it fly 63 TICKS; a law whose drag eats SPEED lets SPIN fall: 3 in TICK 1, 2 at most later.
         DartHangar calm = hangar("lift 0 0 0 0 0 0 0 0 0;drag 99 99 99 99 99 99 99 99 99;turn 10;slow 0;pull 1;");
         // SPEED 200: Q 40, SPIN 9 40 10 by 1000 = 3, DRAG 99 40 48 by 480 = 396: VX -196: Q 38: SPIN 6 ..
         check.due(3, calm.at(0, 9, 200, 0, 1, 5), "SPIN behind one TICK");
         check.due(6, calm.at(0, 9, 200, 0, 2, 5), "SPIN behind two TICKS");
         check.due(-196, calm.at(0, 9, 200, 0, 1, 2), "VX behind one TICK");
+    }
+
+    /** Level FLIGHTS with EARS -9 that a CRATE ends where all SPIN together is just a round, or just not. */
+    private static void loopsOf(String law, int speed, int ticks, int turned, int loops) {
+        DartHangar h = hangar("lift 0 0 0 0 0 0 0 0 0;drag 0 0 0 0 0 0 0 0 0;" + law);
+        h.draught(1, 200, 10);
+        h.crate(speed * ticks, 9999);
+        int sum = 0;
+        for (int t = 1; t <= ticks; t++) {
+            sum += h.at(0, -9, speed, 0, t, 5);
+        }
+        check.due(turned, sum, "all SPIN of " + ticks + " TICKS");
+        check.due(ticks, h.fly(0, -9, speed, 0, 1), "LONG to the CRATE");
+        check.due(loops, h.fly(0, -9, speed, 0, 4), "LOOPS of " + turned);
     }
 
     private static void at() {
@@ -353,6 +369,14 @@ public final class FlightsTest {
         check.due(17, two.rest(0, 0, -1), "LEVER 0 and EARS 0: all");
         check.due(92, two.rest(0, 0, 0), "the first of all");
         check.due(108, two.rest(0, 0, 16), "the last of all");
+        // 4 by 3, nose 1: S 9, LEVER 5; W 12 and 1 by DAMP 9: T(k) is 13 e - 45 lift: 91 - 90 = 1 at lift 2, below 0 at lift 3.
+        DartHangar near = new DartHangar();
+        near.sheet(4, 3);
+        Check.way(near, "nose 1;");
+        Check.law(near, "thin 1;lift 0 0 2 3 3 3 3 3 3;");
+        near.damp(9);
+        check.due(1, near.rest(0, 7, -1), "RESTS from a T of 1");
+        check.due(102, near.rest(0, 7, 0), "that REST");
         check.refused(Check.ARGUMENT, "rest with EARS 10", () -> h.rest(1, 10, 0));
         check.refused(Check.STATE, "rest without a MAKE", () -> h.rest(2, 10, 0));
         check.refused(Check.NO_ELEMENT, "rest of no WAY", () -> h.rest(3, 10, 0));
@@ -364,7 +388,14 @@ public final class FlightsTest {
         check.due(0, h.why(1, 0), "a REST");
         check.due(2, h.why(0, 1), "LEVER 0 and EARS 1 stall");
         check.due(1, h.why(0, -1), "LEVER 0 and EARS -1 nose down");
-        // T(k) is 480 e - 360 lift of k. EARS 1: above 0 for lift 0 and 1, below for 2: no ATTACK above 0 to end below.
+        // T(k) is 480 e - 360 lift of k: EARS 9 and lift 12 make 0 at ATTACK 8 alone, EARS -9 at -8 alone.
+        DartHangar edge = hangar("lift 0 0 0 0 0 0 0 0 12;");
+        check.due(0, edge.why(1, 9), "a REST at 8");
+        check.due(108, edge.rest(1, 9, 0), "a REST at 8");
+        check.due(0, edge.why(1, -9), "a REST at -8");
+        check.due(92, edge.rest(1, -9, 0), "a REST at -8");
+        check.due(2, hangar("lift 0 0 0 0 0 0 0 0 11;").why(1, 9), "just above 0 at 8 too");
+        check.due(1, hangar("lift 0 0 0 0 0 0 0 0 11;").why(1, -9), "just below 0 at -8 too");
         DartHangar steep = hangar("lift 2 2 2 2 2 2 2 2 2;thin 1;");
         // thin 1: 48 e - 360 lift: T is below 0 from 0 on, above 0 ahead of it: a REST at -1.
         check.due(0, steep.why(1, 1), "a REST at -1");

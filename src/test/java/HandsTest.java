@@ -285,6 +285,10 @@ public final class HandsTest {
         check.due(true, h.hoop(0, 0, 100, 0, 950, 0, 9999), "a CRATE at the HOOP");
         check.due(false, h.hoop(0, 0, 100, 0, 951, 0, 9999), "a CRATE ahead of it");
         h.still();
+        h.draught(1, 200, 10);
+        check.due(true, h.hoop(0, 0, 100, 0, 20000, 2000, 2000), "in TICK 200");
+        check.due(false, h.hoop(0, 0, 100, 0, 20001, 2000, 2000), "in TICK 201");
+        h.still();
         int[][] wrong = {{0, 0, 5}, {100000, 0, 5}, {5, -1, 5}, {5, 0, 10000}, {5, 6, 5}, {5, 10000, 10000}};
         for (int[] a : wrong) {
             check.refused(Check.ARGUMENT, "hoop(.. " + a[0] + ", " + a[1] + ", " + a[2] + ")", () -> h.hoop(0, 0, 100, 0, a[0], a[1], a[2]));

@@ -180,7 +180,7 @@ public final class SheetAndWaysTest {
             {"nose 00;", 3, 5}, {"nose 13;", 3, 5}, {"nose 99;", 3, 5}, {"Nose 1;", 1, 0}, {"nOse 1;", 2, 0},
             {"nose\t1;", 1, 4}, {"nose 1:", 1, 6}, {"nose -1;", 1, 5}, {"nose 1;pull 1;", 2, 7}, {"nose nose;", 2, 5},
             {"nose 1 1;", 2, 7}, {"nose 0 x", 3, 5}, {"nose;123", 2, 4}, {"\rnose 1;", 1, 0}, {"side 1;{", 1, 7},
-            {"side 1;`", 1, 7}, {"nose 1/", 1, 6},
+            {"side 1;`", 1, 7}, {"z", 2, 0}, {"a", 2, 0}, {"nose z", 2, 5}, {"nose 1/", 1, 6},
         };
         for (Object[] row : ways) {
             // nOse: the word n is read first, and can't stand there.

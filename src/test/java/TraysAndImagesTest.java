@@ -38,6 +38,9 @@ public final class TraysAndImagesTest {
         h.tray(1, 2, 3);
         h.write(1, 0, 100);
         check.refused(Check.ARGUMENT, "a chance of 0", () -> h.take(1, 0));
+        h.tray(1, 2, 3);
+        h.write(1, 2, 1);
+        check.refused(Check.ARGUMENT, "a SPEED of 0", () -> h.take(1, 0));
     }
 
     private static void write() {
