@@ -7,23 +7,29 @@ final class Check {
     static final Class<? extends RuntimeException> ARGUMENT = IllegalArgumentException.class;
     static final Class<? extends RuntimeException> BOUNDS = IndexOutOfBoundsException.class;
 
+    /** An air in which nothing lifts, drags or turns: a throw is a stone's. */
+    static final String STONE = "lift 0 0 0 0 0 0 0 0 0;drag 0 0 0 0 0 0 0 0 0;turn 0;";
+    /** Numbers that lie far outside of all bounds. */
+    static final int[] WILD = {Integer.MIN_VALUE, Integer.MIN_VALUE + 1, -100000, 100000, Integer.MAX_VALUE - 1, Integer.MAX_VALUE};
+
     interface Call {
         void make();
     }
 
     private int asked;
     private int wrong;
-    private String promise = "";
+    private String sentence = "";
 
-    void promise(int number) {
-        promise = "promise " + number + ": ";
+    /** What follows tests this sentence of the document (SentencesTest looks it up there). */
+    void says(int promise, String words) {
+        sentence = "promise " + promise + " \"" + words + "\": ";
     }
 
     void due(long want, long got, String what) {
         asked++;
         if (got != want) {
             wrong++;
-            System.out.println(promise + what + " answered " + got + ", due is " + want);
+            System.out.println(sentence + what + " answered " + got + ", due is " + want);
         }
     }
 
@@ -33,16 +39,20 @@ final class Check {
 
     void refused(Class<? extends RuntimeException> kind, String what, Call call) {
         asked++;
-        String got = "nothing";
+        String got = thrownBy(call);
+        if (!got.equals(kind.getSimpleName())) {
+            wrong++;
+            System.out.println(sentence + what + " threw " + got + ", due is " + kind.getSimpleName());
+        }
+    }
+
+    static String thrownBy(Call call) {
         try {
             call.make();
         } catch (RuntimeException e) {
-            got = e.getClass().getSimpleName();
+            return e.getClass().getSimpleName();
         }
-        if (!got.equals(kind.getSimpleName())) {
-            wrong++;
-            System.out.println(promise + what + " threw " + got + ", due is " + kind.getSimpleName());
-        }
+        return "nothing";
     }
 
     void end() {
@@ -51,6 +61,8 @@ final class Check {
             System.exit(1);
         }
     }
+
+    // ---- objects to ask
 
     /** Puts a text onto the tape, filled up with blanks to whole twenties. */
     static void feed(DartHangar hangar, String text) {
@@ -74,6 +86,31 @@ final class Check {
         return hangar.law(text.length());
     }
 
-    /** An air in which nothing lifts, drags or turns: a throw is a stone's. */
-    static final String STONE = "lift 0 0 0 0 0 0 0 0 0;drag 0 0 0 0 0 0 0 0 0;turn 0;";
+    /** WAY 0 of this text, on a SHEET of this size. */
+    static DartHangar folded(int rows, int columns, String text) {
+        DartHangar h = new DartHangar();
+        h.sheet(rows, columns);
+        way(h, text);
+        return h;
+    }
+
+    /** WAY 0 is the whole sheet (S 48, W 48, LEVER 0), WAY 1 nose 2 (S 36, W 48, LEVER 10), WAY 2 has no MAKE. */
+    static DartHangar hangar(String law) {
+        DartHangar h = new DartHangar();
+        way(h, "");
+        way(h, "nose 2;");
+        way(h, "nose 5;");
+        law(h, law);
+        return h;
+    }
+
+    /** The same; HAND 0 throws 100 at 0 (chance 2) and at 16 (chance 1), HAND 1 not at all. */
+    static DartHangar hands(String law) {
+        DartHangar h = hangar(law);
+        h.hand();
+        h.toss(0, 100, 0, 2);
+        h.toss(0, 100, 16, 1);
+        h.hand();
+        return h;
+    }
 }

@@ -1,198 +1,258 @@
-/** Promises 11 to 19: flights, draughts, crates, damp, the best slant, rests and why. */
+/** Promises 11 and 13 to 17: how flights end and what is told of them, draughts, crates, damp, the best slant. */
 public final class FlightsTest {
     private static final Check check = new Check();
 
     public static void main(String[] args) {
-        fly();
-        wrongFlights();
-        ticksByHand();
-        attackByHand();
-        roof();
-        endings();
-        loopsAndEven();
-        at();
-        draught();
-        crate();
+        whatOfAFlight();
+        wrongThrow();
+        lands();
+        stops();
+        stopsAtTheLeast();
+        endsBehind200Ticks();
+        far();
+        lasted();
+        high();
+        loops();
+        even();
+
+        aDraughtMore();
+        fourDraughts();
+        wrongDraught();
+        draughtTicks();
+        draughtsTogether();
+
+        aCrateMore();
+        threeCrates();
+        wrongCrate();
+
         still();
+
         damp();
-        slant();
-        rest();
-        why();
+        dampBounds();
+        dampWeight();
+
+        bestSlant();
+        bestSlantTerms();
         check.end();
     }
 
-    /** WAY 0 is the whole sheet (LEVER 0), WAY 1 nose 2 (S 36, W 48, LEVER 10), WAY 2 has no MAKE. */
-    private static DartHangar hangar(String law) {
-        DartHangar h = new DartHangar();
-        Check.way(h, "");
-        Check.way(h, "nose 2;");
-        Check.way(h, "nose 5;");
-        if (!law.isEmpty()) {
-            Check.law(h, law);
+    private static void dueFlight(DartHangar h, int[] thrown, int... want) {
+        for (int what = 0; what < want.length; what++) {
+            check.due(want[what], h.fly(thrown[0], thrown[1], thrown[2], thrown[3], what),
+                "fly(" + thrown[0] + ", " + thrown[1] + ", " + thrown[2] + ", " + thrown[3] + ", " + what + ")");
         }
+    }
+
+    /** Nothing lifts, drags or pulls: it flies straight on, and only EARS turn its nose. */
+    private static DartHangar straight(String law) {
+        DartHangar h = Check.hangar("lift 0 0 0 0 0 0 0 0 0;drag 0 0 0 0 0 0 0 0 0;" + law);
+        h.draught(1, 200, 10);
         return h;
     }
 
-    private static void dueFlight(DartHangar h, int[] args, int... want) {
-        for (int what = 0; what < want.length; what++) {
-            check.due(want[what], h.fly(args[0], args[1], args[2], args[3], what),
-                "fly(" + args[0] + ", " + args[1] + ", " + args[2] + ", " + args[3] + ", " + what + ")");
-        }
-    }
+    // ---- promise 11
 
-    private static void dueState(DartHangar h, int[] args, int ticks, int... want) {
-        for (int what = 0; what < want.length; what++) {
-            check.due(want[what], h.at(args[0], args[1], args[2], args[3], ticks, what),
-                "at(" + args[0] + ", " + args[1] + ", " + args[2] + ", " + args[3] + ", " + ticks + ", " + what + ")");
-        }
-    }
-
-    private static void fly() {
-        check.promise(11);
-        DartHangar h = hangar(Check.STONE);
+    private static void whatOfAFlight() {
+        check.says(11, "A FLIGHT, what 0: FAR, 1: LONG, 2: HIGH, 3: 1 if it LANDED, 2 if it was STOPPED, else 0, 4: LOOPS, 5: EVEN (NONE).");
+        DartHangar h = Check.hangar(Check.STONE);
         // Falls 10, 20, .. a TICK: 10 k (k + 1) by 2 is 2000 or more behind 20 TICKS (2100).
         dueFlight(h, new int[] {0, 0, 100, 0}, 2000, 20, 2000, 1, 0, 1);
         // Up 90, 80, .. 0: 450 high.
         dueFlight(h, new int[] {0, 0, 100, 16}, 0, 32, 2450, 1, 0, 1);
-        // SPEED 999 at SLANT 8: 999 times 707 by 1000 is 706 both ways; 200 TICKS end it high above.
+        // SPEED 999 at SLANT 8: 999 times 707 by 1000 is 706 both ways.
         dueFlight(h, new int[] {0, 9, 999, 8}, 706 * 143, 143, 2000 + 706 * 70 - 10 * 70 * 71 / 2, 1, 0, 1);
-        // The bounds themselves.
+        // 19 TICKS are too few to be EVEN.
         dueFlight(h, new int[] {0, -9, 10, -16}, 0, 19, 2000, 1, 0, -1);
+        h.crate(1000, 9999);
+        dueFlight(h, new int[] {0, 0, 100, 0}, 1000, 10, 2000, 2, 0, -1);
+        DartHangar on = straight("turn 99;slow 0;");
+        // SPIN 200 in each of 200 TICKS: 40000 by 1024.
+        dueFlight(on, new int[] {0, 9, 999, 0}, 199800, 200, 2000, 0, 39, -1);
     }
 
-    private static void wrongFlights() {
-        check.promise(11);
-        DartHangar h = hangar(Check.STONE);
-        int[][] wrong = {{-10, 100, 0, 0}, {10, 100, 0, 0}, {0, 9, 0, 0}, {0, 1000, 0, 0}, {0, 100, -17, 0}, {0, 100, 17, 0},
-            {0, 100, 0, -1}, {0, 100, 0, 6}, {Integer.MIN_VALUE, 100, 0, 0}, {0, Integer.MAX_VALUE, 0, 0}, {0, 100, Integer.MIN_VALUE, 0}};
+    private static void wrongThrow() {
+        check.says(11, "IllegalArgumentException: EARS, SPEED, SLANT (as everywhere), another what.");
+        DartHangar h = Check.hangar(Check.STONE);
+        int[][] wrong = {{-10, 100, 0, 0}, {10, 100, 0, 0}, {0, 9, 0, 0}, {0, 1000, 0, 0}, {0, 100, -17, 0}, {0, 100, 17, 0}, {0, 100, 0, -1}, {0, 100, 0, 6}};
         for (int[] a : wrong) {
-            check.refused(Check.ARGUMENT, "fly(0, " + a[0] + ", " + a[1] + ", " + a[2] + ", " + a[3] + ")",
-                () -> h.fly(0, a[0], a[1], a[2], a[3]));
+            check.refused(Check.ARGUMENT, "fly(0, " + a[0] + ", " + a[1] + ", " + a[2] + ", " + a[3] + ")", () -> h.fly(0, a[0], a[1], a[2], a[3]));
         }
-        check.refused(Check.STATE, "fly without a MAKE, wrong EARS", () -> h.fly(2, 10, 100, 0, 0));
-        check.refused(Check.NO_ELEMENT, "fly of no WAY, wrong EARS", () -> h.fly(3, 10, 100, 0, 0));
-        check.refused(Check.NO_ELEMENT, "fly of WAY -1", () -> h.fly(-1, 0, 100, 0, 0));
+        for (int wild : Check.WILD) {
+            check.refused(Check.ARGUMENT, "EARS " + wild, () -> h.fly(0, wild, 100, 0, 0));
+            check.refused(Check.ARGUMENT, "SPEED " + wild, () -> h.fly(0, 0, wild, 0, 0));
+            check.refused(Check.ARGUMENT, "SLANT " + wild, () -> h.fly(0, 0, 100, wild, 0));
+            check.refused(Check.ARGUMENT, "what " + wild, () -> h.fly(0, 0, 100, 0, wild));
+        }
+        check.due(19, h.fly(0, -9, 10, -16, 1), "LONG of the least numbers");
+        check.due(200, h.fly(0, 9, 999, 16, 1), "LONG of the greatest numbers");
     }
 
-    private static void ticksByHand() {
-        check.promise(12);
-        DartHangar h = hangar("");
-        int[] thrown = {1, 3, 500, 0};
-        dueState(h, thrown, 0, 0, 2000, 500, 0, 0, 0);
-        // Q 250, DRAG 2 250 36 by 480 = 37, SPIN 3 250 10 by 1000 = 7, less 2.
-        dueState(h, thrown, 1, 463, 1990, 463, -10, 5, 5);
-        // Q 214, DRAG 32, SPIN 5 + 6 = 11, less 3.
-        dueState(h, thrown, 2, 894, 1970, 431, -20, 13, 8);
-        // LEVER 0 and EARS below 0: SPIN -9 250 10 by 1000 = -22, less -6; NOSE goes round.
-        // DRAG 2 250 48 by 480 = 50.
-        dueState(h, new int[] {0, -9, 500, 0}, 1, 450, 1990, 450, -10, 1008, -16);
-    }
-
-    private static void attackByHand() {
-        check.promise(12);
-        // The nose stands still, so the PATH sinks below it.
-        DartHangar h = hangar("turn 0;pull 50;drag 0 0 0 0 0 0 0 0 0;");
-        int[] thrown = {1, 0, 100, 0};
-        // TICK 1: ATTACK 0, no LIFT: VY -50. TICK 2: PATH of (100, -50): 100 COS + 50 SIN of 5 steps down
-        // 88200 + 23550 = 111750, of 4 down 92400 + 19150 = 111550, of 6 down 83100 + 27800 = 110900: 59.
-        // ATTACK 0 - 59 + 64 = 5; Q 12; LIFT 45 12 36 by 480 = 40; COS 882, SIN -471:
-        // VX 100 + 18840 by 1000 = 118, VY -50 + 35280 by 1000 - 50 = -65.
-        dueState(h, thrown, 1, 100, 1950, 100, -50, 0, 0);
-        dueState(h, thrown, 2, 218, 1885, 118, -65, 0, 0);
-        // An ATTACK below 0 lifts downwards: the nose turned down by EARS -9 in one TICK, then looked at.
-        DartHangar down = hangar("turn 99;slow 0;thin 1;pull 1;drag 0 0 0 0 0 0 0 0 0;");
-        // Q 250: SPIN -9 250 99 by 1000 = -222, kept at -200: NOSE 824. TICK 2: NOSE by 16 is 51; PATH 0 of (500, -1):
-        // ATTACK 51 - 64 = -13, so -8: LIFT -(10 250 48 by 48) = -2500. VX 500 - (-2500 0) = 500, VY -1 - 2500 - 1: -2000.
-        dueState(down, new int[] {0, -9, 500, 0}, 1, 500, 1999, 500, -1, 824, -200);
-        dueState(down, new int[] {0, -9, 500, 0}, 2, 1000, -1, 500, -2000, 624, -200);
-        // LEVER 10 turns the nose down under LIFT: lift of ATTACK 0 is above 0.
-        DartHangar lever = hangar("lift 8 0 0 0 0 0 0 0 0;drag 0 0 0 0 0 0 0 0 0;slow 0;");
-        // LIFT 8 250 36 by 480 = 150; SPIN -(10 150) 10 by 1000 = -15; VY 150 - 10.
-        dueState(lever, new int[] {1, 0, 500, 0}, 1, 500, 2140, 500, 140, 1009, -15);
-    }
-
-    private static void roof() {
-        check.promise(11);
-        DartHangar h = hangar(Check.STONE + "roof 21;");
-        int[] up = {0, 0, 100, 16};
-        dueState(h, up, 1, 0, 2090, 0, 90);
-        dueState(h, up, 2, 0, 2100, 0, -40);
-        check.due(2100, h.fly(0, 0, 100, 16, 2), "HIGH under a roof");
-        DartHangar even = hangar(Check.STONE + "roof 21;pull 1;");
-        dueState(even, new int[] {0, 0, 101, 16}, 1, 0, 2100, 0, 100);
-        dueState(even, new int[] {0, 0, 102, 16}, 1, 0, 2100, 0, -50);
-        DartHangar low = hangar(Check.STONE + "roof 10;");
-        dueState(low, new int[] {0, 0, 100, 0}, 1, 100, 1000, 100, 5);
-        check.due(2000, low.fly(0, 0, 100, 0, 2), "HIGH is 2000 at least");
-    }
-
-    private static void endings() {
-        check.promise(11);
-        DartHangar h = hangar(Check.STONE);
-        // Y is 100 behind TICK 19, -100 behind TICK 20.
-        check.due(1, h.fly(0, 0, 100, 0, 3), "LANDED");
-        h.crate(2000, 1);
-        check.due(2, h.fly(0, 0, 100, 0, 3), "STOPPED in the TICK in which it would land");
-        check.due(2000, h.fly(0, 0, 100, 0, 0), "FAR of that");
-        h.still();
-        DartHangar exact = hangar(Check.STONE + "pull 20;");
-        // 20 k (k + 1) by 2: 1820 behind 13, 2100 behind 14. SPEED 10 up: VY -10, -30, ..: 10 k k: 2000 is between 14 and 15.
-        check.due(14, exact.fly(0, 0, 100, 0, 1), "LONG with pull 20");
-        exact.draught(14, 14, 20);
-        // TICK 14 falls 260, not 280: 2080. Without pull in 12 to 14 it would fall less.
-        check.due(1, exact.fly(0, 0, 100, 0, 3), "LANDED with a draught");
-        DartHangar zero = hangar(Check.STONE + "pull 50;");
-        // 50 k (k + 1) by 2: 2250 behind 9, 1800 behind 8. A draught of 20 in TICK 1 gives 20 less a TICK: 2070 behind 9.
-        zero.draught(1, 1, 20);
-        zero.draught(2, 2, 20);
-        // Behind 9 TICKS: 2250 - 9 20 - 8 20 = 1910; one more TICK ends it.
-        check.due(10, zero.fly(0, 0, 100, 0, 1), "LONG with two draughts");
-        zero.draught(9, 9, -20);
-        zero.draught(8, 8, -20);
-        // 1910 + 20 + 40 = 1970: Y 30 behind 9.
-        check.due(30, zero.at(0, 0, 100, 0, 9, 1), "Y behind 9 TICKS");
-        check.due(10, zero.fly(0, 0, 100, 0, 1), "LONG then");
-        DartHangar ground = hangar(Check.STONE + "pull 40;");
-        // 40 k (k + 1) by 2: 1800 behind 9, 2200 behind 10; a draught of -20 in TICK 4: 6 20 more behind 9; and so on to 2000.
+    private static void lands() {
+        check.says(11, "It ends behind the TICK in which Y is 0 or below (LANDED)");
+        // 40 k (k + 1) by 2 is 1800 behind 9 TICKS; 20 more in TICK 1 are 180 more by then, in TICK 9 20 more: 2000.
+        DartHangar ground = Check.hangar(Check.STONE + "pull 40;");
         ground.draught(1, 1, -20);
         ground.draught(9, 9, -20);
         check.due(0, ground.at(0, 0, 100, 0, 9, 1), "Y is 0");
-        check.due(9, ground.fly(0, 0, 100, 0, 1), "it LANDED at 0");
+        dueFlight(ground, new int[] {0, 0, 100, 0}, 900, 9, 2000, 1);
+        // 19 more instead: Y is 1, and it flies on.
+        DartHangar above = Check.hangar(Check.STONE + "pull 40;");
+        above.draught(1, 1, -20);
+        above.draught(9, 9, -19);
+        check.due(1, above.at(0, 0, 100, 0, 9, 1), "Y is 1");
+        dueFlight(above, new int[] {0, 0, 100, 0}, 1000, 10, 2000, 1);
+        // 20 and 1 more: Y is -1.
+        ground.draught(9, 9, -1);
+        check.due(-1, ground.at(0, 0, 100, 0, 9, 1), "Y is -1");
+        dueFlight(ground, new int[] {0, 0, 100, 0}, 900, 9, 2000, 1);
     }
 
-    private static void loopsAndEven() {
-        check.promise(11);
-        // LEVER 0, no LIFT, no DRAG: SPIN grows by 9 Q 99 by 1000 and is kept at 200.
-        DartHangar h = hangar("lift 0 0 0 0 0 0 0 0 0;drag 0 0 0 0 0 0 0 0 0;turn 99;slow 0;");
-        // SPEED 999: Q 998: SPIN 889, kept at 200 in each of 20 TICKS: 4000 by 1024 = 3.
-        check.due(20, h.fly(0, 9, 999, 0, 1), "LONG");
-        check.due(3, h.fly(0, 9, 999, 0, 4), "LOOPS");
-        check.due(3, h.fly(0, -9, 999, 0, 4), "LOOPS the other way");
-        check.due(-1, h.fly(0, 9, 999, 0, 5), "EVEN");
-        check.due(1, h.fly(0, 0, 999, 0, 5), "EVEN with EARS 0");
-        // slow 9, turn 1: SPIN becomes (SPIN + 9 Q by 1000) less nine tenths. SPEED 500: 9 250 by 1000 = 2: SPIN 2 - 1 = 1,
-        // then 3 - 2 = 1 ..: never above 2.
-        DartHangar slow = hangar("lift 0 0 0 0 0 0 0 0 0;drag 0 0 0 0 0 0 0 0 0;turn 1;slow 9;");
-        check.due(1, slow.fly(0, 9, 500, 0, 5), "EVEN with a SPIN of 1");
-        check.due(1, slow.at(0, 9, 500, 0, 5, 5), "that SPIN");
-        check.due(20, slow.fly(0, 9, 500, 0, 1), "20 TICKS just are enough");
-        slow.crate(500 * 19, 9999);
-        check.due(-1, slow.fly(0, 9, 500, 0, 5), "19 TICKS are not");
-        slow.still();
-        loopsOf("turn 71;slow 1;", 100, 26, -1024, 1);
-        loopsOf("turn 78;slow 1;", 350, 6, -1023, 0);
-        // pull 1 makes it fly 63 TICKS; a law whose drag eats SPEED lets SPIN fall: 3 in TICK 1, 2 at most later.
-        DartHangar calm = hangar("lift 0 0 0 0 0 0 0 0 0;drag 99 99 99 99 99 99 99 99 99;turn 10;slow 0;pull 1;");
-        // SPEED 200: Q 40, SPIN 9 40 10 by 1000 = 3, DRAG 99 40 48 by 480 = 396: VX -196: Q 38: SPIN 6 ..
-        check.due(3, calm.at(0, 9, 200, 0, 1, 5), "SPIN behind one TICK");
-        check.due(6, calm.at(0, 9, 200, 0, 2, 5), "SPIN behind two TICKS");
-        check.due(-196, calm.at(0, 9, 200, 0, 1, 2), "VX behind one TICK");
+    private static void stops() {
+        check.says(11, "or in which X goes from below a CRATE's x to it or more, Y then being its height or less");
+        // Behind TICK 9: X 900, Y 1550; behind TICK 10: X 1000, Y 1450.
+        int[][] crates = {
+            {1000, 1450, 2, 10}, {1000, 1449, 1, 20}, {1000, 1451, 2, 10}, {901, 1450, 2, 10}, {901, 1449, 1, 20},
+            {900, 1550, 2, 9}, {900, 1549, 1, 20}, {2000, 1, 2, 20}, {2001, 9999, 1, 20}, {1, 9999, 2, 1}, {1, 1989, 1, 20}, {99999, 9999, 1, 20}};
+        for (int[] c : crates) {
+            DartHangar h = Check.hangar(Check.STONE);
+            h.crate(c[0], c[1]);
+            check.due(c[2], h.fly(0, 0, 100, 0, 3), "how it ends with a CRATE at " + c[0] + ", " + c[1] + " high");
+            check.due(c[3], h.fly(0, 0, 100, 0, 1), "LONG with a CRATE at " + c[0] + ", " + c[1] + " high");
+        }
+        stopsForwardsOnly();
+        DartHangar up = Check.hangar(Check.STONE);
+        up.crate(1, 9999);
+        check.due(1, up.fly(0, 0, 100, 16, 3), "straight up it never gets to 1");
     }
 
-    /** Level FLIGHTS with EARS -9 that a CRATE ends where all SPIN together is just a round, or just not. */
-    private static void loopsOf(String law, int speed, int ticks, int turned, int loops) {
-        DartHangar h = hangar("lift 0 0 0 0 0 0 0 0 0;drag 0 0 0 0 0 0 0 0 0;" + law);
+    /** Over a CRATE of 1999 at 2000, and back through it from behind, lower: nothing is met. */
+    private static void stopsForwardsOnly() {
+        DartHangar h = Check.hangar("turn 0;thin 1;lift 0 0 0 0 0 0 0 0 0;drag 0 20 0 0 0 0 0 0 0;");
         h.draught(1, 200, 10);
+        h.draught(3, 3, -6);
+        h.draught(4, 4, -20);
+        h.crate(150, 1999);
+        // (98, 0) until VY is -6 in TICK 3: ATTACK 1, DRAG 180 in TICK 4: VX 98 - 179, VY -6 + 17 - 20; then straight on.
+        int[][] places = {{0, 2000}, {98, 2000}, {196, 2000}, {294, 1994}, {213, 1985}, {132, 1976}, {51, 1967}};
+        for (int t = 0; t < places.length; t++) {
+            check.due(places[t][0], h.at(0, 0, 98, 0, t, 0), "X behind TICK " + t);
+            check.due(places[t][1], h.at(0, 0, 98, 0, t, 1), "Y behind TICK " + t);
+        }
+        check.due(0, h.fly(0, 0, 98, 0, 3), "it is not STOPPED backwards");
+        check.due(132 - 195 * 81, h.fly(0, 0, 98, 0, 0), "FAR backwards");
+    }
+
+    private static void stopsAtTheLeast() {
+        check.says(11, "(STOPPED: of several that at the least x; X is x then; it isn't LANDED)");
+        int[][] orders = {{980, 920, 940}, {920, 940, 980}, {940, 980, 920}};
+        for (int[] x : orders) {
+            DartHangar h = Check.hangar(Check.STONE);
+            for (int one : x) {
+                h.crate(one, 9999);
+            }
+            dueFlight(h, new int[] {0, 0, 100, 0}, 920, 10, 2000, 2);
+            check.due(920, h.at(0, 0, 100, 0, 200, 0), "X is x then");
+        }
+        // Of several only those that are high enough.
+        DartHangar low = Check.hangar(Check.STONE);
+        low.crate(920, 1449);
+        low.crate(980, 1450);
+        low.crate(940, 1000);
+        dueFlight(low, new int[] {0, 0, 100, 0}, 980, 10, 2000, 2);
+        // In TICK 20 Y is -100: it would land, and is STOPPED.
+        DartHangar ground = Check.hangar(Check.STONE);
+        ground.crate(1950, 1);
+        dueFlight(ground, new int[] {0, 0, 100, 0}, 1950, 20, 2000, 2);
+        check.due(-100, ground.at(0, 0, 100, 0, 20, 1), "Y then");
+    }
+
+    private static void endsBehind200Ticks() {
+        check.says(11, "or behind 200 TICKS.");
+        DartHangar h = straight("turn 0;");
+        dueFlight(h, new int[] {0, 0, 100, 0}, 20000, 200, 2000, 0);
+        // 40 k (k + 1) by 2: 1800 behind 9 TICKS, 2200 behind 10. From TICK 192 on it does not land, from 191 on it lands in TICK 200.
+        h.draught(192, 200, -20);
+        h.draught(192, 200, -20);
+        dueFlight(h, new int[] {0, 0, 100, 0}, 20000, 200, 2000, 0);
+        check.due(200, h.at(0, 0, 100, 0, 200, 1), "Y behind 200 TICKS");
+        DartHangar lands = straight("turn 0;");
+        lands.draught(191, 200, -20);
+        lands.draught(191, 200, -20);
+        dueFlight(lands, new int[] {0, 0, 100, 0}, 20000, 200, 2000, 1);
+        // A CRATE in TICK 200, and one that TICK 201 would meet.
+        DartHangar stopped = straight("turn 0;");
+        stopped.crate(20000, 2000);
+        dueFlight(stopped, new int[] {0, 0, 100, 0}, 20000, 200, 2000, 2);
+        DartHangar behind = straight("turn 0;");
+        behind.crate(20001, 2000);
+        dueFlight(behind, new int[] {0, 0, 100, 0}, 20000, 200, 2000, 0);
+    }
+
+    private static void far() {
+        check.says(11, "FAR: X then.");
+        DartHangar h = Check.hangar(Check.STONE);
+        for (int s = -16; s <= 16; s += 4) {
+            check.due(h.at(0, 0, 300, s, 200, 0), h.fly(0, 0, 300, s, 0), "FAR at SLANT " + s);
+        }
+        // Thrown back: FAR is below 0. SPEED 200, Q 40, DRAG 22 40: VX -680 in each of 20 TICKS (from then on ATTACK -8 has none).
+        DartHangar back = Check.hangar("turn 0;thin 1;lift 0 0 0 0 0 0 0 0 0;drag 22 0 0 0 0 0 0 0 0;");
+        check.due(-680 * 20, back.fly(0, 0, 200, 0, 0), "a FAR below 0");
+    }
+
+    private static void lasted() {
+        check.says(11, "LONG: how many TICKS there were.");
+        DartHangar h = Check.hangar(Check.STONE);
+        check.due(20, h.fly(0, 0, 100, 0, 1), "LONG");
+        h.crate(1, 9999);
+        check.due(1, h.fly(0, 0, 100, 0, 1), "LONG of one TICK");
+        check.due(32, h.fly(0, 0, 100, 16, 1), "LONG straight up");
+    }
+
+    private static void high() {
+        check.says(11, "HIGH: the greatest Y (2000 at least).");
+        DartHangar h = Check.hangar(Check.STONE);
+        check.due(2450, h.fly(0, 0, 100, 16, 2), "HIGH straight up");
+        check.due(2000, h.fly(0, 0, 100, -16, 2), "HIGH straight down");
+        // SPEED 11: 1 up in TICK 1.
+        check.due(2001, h.fly(0, 0, 11, 16, 2), "HIGH by 1");
+        check.due(2000, h.fly(0, 0, 10, 16, 2), "HIGH by 0");
+        DartHangar roof = Check.hangar(Check.STONE + "roof 21;");
+        check.due(2100, roof.fly(0, 0, 200, 16, 2), "HIGH under a roof");
+        DartHangar low = Check.hangar(Check.STONE + "roof 10;");
+        check.due(2000, low.fly(0, 0, 100, 0, 2), "HIGH under a roof of 1000");
+        // The last TICK counts too: up to a CRATE. X 70, Y 2060.
+        h.crate(70, 9999);
+        check.due(2060, h.fly(0, 0, 100, 8, 2), "HIGH in the only TICK");
+    }
+
+    private static void loops() {
+        check.says(11, "LOOPS: all SPIN added up by signs, that sum without sign by 1024, cut.");
+        // SPIN 200 in each TICK: 5 TICKS are 1000, 6 are 1200, 11 are 2200.
+        int[][] ends = {{5, 0}, {6, 1}, {10, 1}, {11, 2}, {15, 2}, {16, 3}};
+        for (int[] end : ends) {
+            DartHangar h = straight("turn 99;slow 0;");
+            h.crate(500 * end[0], 9999);
+            check.due(end[1], h.fly(0, 9, 500, 0, 4), "LOOPS of " + end[0] + " TICKS");
+            check.due(end[1], h.fly(0, -9, 500, 0, 4), "LOOPS of " + end[0] + " TICKS the other way");
+        }
+        dueLoops("turn 71;slow 1;", 100, 26, -1024, 1);
+        dueLoops("turn 78;slow 1;", 350, 6, -1023, 0);
+        // By signs: the nose swings to and fro, so the sum is far less than the SPIN of all TICKS without signs.
+        DartHangar swings = Check.hangar("pull 1;turn 99;slow 0;");
+        int sum = 0;
+        int all = 0;
+        for (int t = 1; t <= swings.fly(1, 6, 400, 0, 1); t++) {
+            int spin = swings.at(1, 6, 400, 0, t, 5);
+            sum += spin;
+            all += Math.abs(spin);
+        }
+        check.due(true, all / 1024 > Math.abs(sum) / 1024, "signs make a difference (" + sum + ", " + all + ")");
+        check.due(Math.abs(sum) / 1024, swings.fly(1, 6, 400, 0, 4), "LOOPS of a nose that swings");
+    }
+
+    /** A level FLIGHT with EARS -9 that a CRATE ends where all SPIN together is just a round, or just not. */
+    private static void dueLoops(String law, int speed, int ticks, int turned, int loops) {
+        DartHangar h = straight(law);
         h.crate(speed * ticks, 9999);
         int sum = 0;
         for (int t = 1; t <= ticks; t++) {
@@ -203,213 +263,301 @@ public final class FlightsTest {
         check.due(loops, h.fly(0, -9, speed, 0, 4), "LOOPS of " + turned);
     }
 
-    private static void at() {
-        check.promise(12);
-        DartHangar h = hangar(Check.STONE);
-        dueState(h, new int[] {0, 0, 100, -16}, 0, 0, 2000, 0, -100, 768, 0);
-        dueState(h, new int[] {0, 0, 999, -1}, 0, 0, 2000, 994, -97, 1008, 0);
-        dueState(h, new int[] {0, 0, 100, 0}, 20, 2000, -100, 100, -200, 0, 0);
-        dueState(h, new int[] {0, 0, 100, 0}, 21, 2000, -100, 100, -200, 0, 0);
-        dueState(h, new int[] {0, 0, 100, 0}, 200, 2000, -100, 100, -200, 0, 0);
-        h.crate(450, 9999);
-        dueState(h, new int[] {0, 0, 100, 0}, 200, 450, 1850, 100, -50, 0, 0);
-        check.refused(Check.ARGUMENT, "at(.. 201, 0)", () -> h.at(0, 0, 100, 0, 201, 0));
-        check.refused(Check.ARGUMENT, "at(.. -1, 0)", () -> h.at(0, 0, 100, 0, -1, 0));
-        check.refused(Check.ARGUMENT, "at(.. 0, 6)", () -> h.at(0, 0, 100, 0, 0, 6));
-        check.refused(Check.ARGUMENT, "at(.. 0, -1)", () -> h.at(0, 0, 100, 0, 0, -1));
-        check.refused(Check.ARGUMENT, "at with EARS 10", () -> h.at(0, 10, 100, 0, 0, 0));
-        check.refused(Check.ARGUMENT, "at with SPEED 1000", () -> h.at(0, 0, 1000, 0, 0, 0));
-        check.refused(Check.ARGUMENT, "at with SLANT 17", () -> h.at(0, 0, 100, 17, 0, 0));
-        check.refused(Check.STATE, "at without a MAKE", () -> h.at(2, 10, 100, 0, 201, 0));
-        check.refused(Check.NO_ELEMENT, "at of no WAY", () -> h.at(3, 10, 100, 0, 201, 0));
+    private static void even() {
+        check.says(11, "EVEN: the first TICK from which on 20 TICKS (at least) to the end have a SPIN of -2 to 2 each.");
+        // slow 9, SPEED 500, EARS 9: turn 8: 18 less 16 is 2, then 20 less 18 is 2 ..; turn 10: 22 less 19 is 3, then 25 less 22 is 3 ..
+        DartHangar two = straight("turn 8;slow 9;");
+        DartHangar three = straight("turn 10;slow 9;");
+        for (int e = -9; e <= 9; e += 18) {
+            check.due(e < 0 ? -2 : 2, two.at(0, e, 500, 0, 100, 5), "SPIN by turn 8");
+            check.due(1, two.fly(0, e, 500, 0, 5), "EVEN with a SPIN of 2, EARS " + e);
+            check.due(e < 0 ? -3 : 3, three.at(0, e, 500, 0, 100, 5), "SPIN by turn 10");
+            check.due(-1, three.fly(0, e, 500, 0, 5), "EVEN with a SPIN of 3, EARS " + e);
+        }
+        // 20 TICKS just are enough, 19 are not.
+        two.crate(500 * 20, 9999);
+        check.due(1, two.fly(0, 9, 500, 0, 5), "EVEN of 20 TICKS");
+        two.crate(500 * 19, 9999);
+        check.due(-1, two.fly(0, 9, 500, 0, 5), "EVEN of 19 TICKS");
+        evenLater();
     }
 
-    private static void draught() {
-        check.promise(13);
-        DartHangar h = hangar(Check.STONE);
-        check.due(0, h.draught(1, 200, 20), "the first DRAUGHT");
-        check.due(1, h.draught(2, 3, -20), "the second DRAUGHT");
-        check.due(2, h.draught(3, 3, -5), "the third DRAUGHT");
-        // VY: 0 - 10 + 20, then - 10, then - 15, then 10 more each.
-        check.due(10, h.at(0, 0, 100, 0, 1, 3), "VY behind TICK 1");
-        check.due(0, h.at(0, 0, 100, 0, 2, 3), "VY behind TICK 2");
-        check.due(-15, h.at(0, 0, 100, 0, 3, 3), "VY behind TICK 3");
-        check.due(-5, h.at(0, 0, 100, 0, 4, 3), "VY behind TICK 4");
-        int[][] wrong = {{0, 5, 1}, {1, 201, 1}, {5, 4, 1}, {201, 201, 1}, {1, 2, 21}, {1, 2, -21}, {1, 0, 1}, {Integer.MIN_VALUE, 1, 1}};
+    /** Drag eats the SPEED, so the SPIN falls to 2 some TICKS later; a CRATE ends it where so many even TICKS have been. */
+    private static void evenLater() {
+        String law = "lift 0 0 0 0 0 0 0 0 0;drag 1 1 1 1 1 1 1 1 1;turn 10;slow 9;";
+        DartHangar h = Check.hangar(law);
+        h.draught(1, 200, 10);
+        int uneven = 0;
+        for (int t = 1; t <= 200; t++) {
+            int spin = h.at(0, 9, 700, 0, t, 5);
+            uneven = spin < -2 || spin > 2 ? t : uneven;
+        }
+        check.due(true, uneven > 1 && uneven < 100, "the last uneven TICK is early (" + uneven + ")");
+        check.due(uneven + 1, h.fly(0, 9, 700, 0, 5), "EVEN from the next TICK on");
+        for (int many = 19; many <= 21; many++) {
+            DartHangar ends = Check.hangar(law);
+            ends.draught(1, 200, 10);
+            ends.crate(h.at(0, 9, 700, 0, uneven + many, 0), 9999);
+            check.due(uneven + many, ends.fly(0, 9, 700, 0, 1), "LONG with " + many + " even TICKS");
+            check.due(many < 20 ? -1 : uneven + 1, ends.fly(0, 9, 700, 0, 5), "EVEN with " + many + " even TICKS");
+        }
+    }
+
+    // ---- promise 13
+
+    private static void aDraughtMore() {
+        check.says(13, "A DRAUGHT more: its number; NONE if there are 4.");
+        DartHangar h = new DartHangar();
+        for (int i = 0; i < 4; i++) {
+            check.due(i, h.draught(1, 200, i), "number of a DRAUGHT");
+            check.due(i + 1, h.count(10), "DRAUGHTS");
+        }
+        check.due(-1, h.draught(1, 200, 20), "a fifth DRAUGHT");
+        check.due(4, h.count(10), "DRAUGHTS then");
+        check.due(4, h.still(), "still()");
+        check.due(0, h.draught(1, 1, 1), "numbers begin anew");
+    }
+
+    private static void fourDraughts() {
+        check.says(13, "DRAUGHTS, at most 4");
+        DartHangar h = Check.hangar(Check.STONE);
+        for (int i = 0; i < 5; i++) {
+            h.draught(1, 200, -10);
+        }
+        // pull 10 and four times 10, not five times.
+        check.due(-50, h.at(0, 0, 100, 0, 1, 3), "VY behind TICK 1");
+    }
+
+    private static void wrongDraught() {
+        check.says(13, "IllegalArgumentException: a number, from above to.");
+        DartHangar h = new DartHangar();
+        int[][] wrong = {{0, 5, 1}, {1, 201, 1}, {5, 4, 1}, {201, 201, 1}, {1, 2, 21}, {1, 2, -21}, {1, 0, 1}, {0, 0, 0}, {200, 1, 0}};
         for (int[] a : wrong) {
             check.refused(Check.ARGUMENT, "draught(" + a[0] + ", " + a[1] + ", " + a[2] + ")", () -> h.draught(a[0], a[1], a[2]));
         }
-        check.due(3, h.count(10), "DRAUGHTS behind refused ones");
-        check.due(3, h.draught(200, 200, 0), "the fourth DRAUGHT");
-        check.due(-1, h.draught(1, 1, 1), "a fifth DRAUGHT");
+        for (int wild : Check.WILD) {
+            check.refused(Check.ARGUMENT, "from " + wild, () -> h.draught(wild, 5, 1));
+            check.refused(Check.ARGUMENT, "to " + wild, () -> h.draught(5, wild, 1));
+            check.refused(Check.ARGUMENT, "from and to " + wild, () -> h.draught(wild, wild, 1));
+            check.refused(Check.ARGUMENT, "v " + wild, () -> h.draught(5, 5, wild));
+        }
+        check.due(0, h.count(10), "DRAUGHTS behind refused ones");
+        int[][] fine = {{1, 1, -20}, {200, 200, 20}, {1, 200, 0}, {5, 5, 0}};
+        for (int[] a : fine) {
+            check.due(h.count(10), h.draught(a[0], a[1], a[2]), "draught(" + a[0] + ", " + a[1] + ", " + a[2] + ")");
+        }
         check.refused(Check.ARGUMENT, "a wrong fifth DRAUGHT", () -> h.draught(2, 1, 1));
-        check.due(4, h.count(10), "DRAUGHTS");
     }
 
-    private static void crate() {
-        check.promise(14);
-        DartHangar h = hangar(Check.STONE);
-        check.due(0, h.crate(99999, 9999), "the first CRATE");
-        // Behind TICK 10: X 1000, Y 1450.
-        check.due(1, h.crate(1000, 1449), "the second CRATE");
-        check.due(2000, h.fly(0, 0, 100, 0, 0), "it flies above 1449");
-        check.due(2, h.crate(950, 1450), "the third CRATE");
-        dueFlight(h, new int[] {0, 0, 100, 0}, 950, 10, 2000, 2);
-        check.due(-1, h.crate(1, 1), "a fourth CRATE");
-        int[][] wrong = {{0, 1}, {1, 0}, {100000, 1}, {1, 10000}, {-5, 5}, {5, Integer.MIN_VALUE}};
+    private static void draughtTicks() {
+        check.says(13, "in TICKS from one to one (1 to 200)");
+        // VY falls by 10 in each TICK, but in those of the draught.
+        int[][] spans = {{1, 1}, {1, 3}, {3, 3}, {2, 5}, {6, 6}};
+        for (int[] span : spans) {
+            DartHangar h = Check.hangar(Check.STONE);
+            h.draught(span[0], span[1], 7);
+            int vy = 0;
+            for (int t = 1; t <= 8; t++) {
+                vy -= t >= span[0] && t <= span[1] ? 3 : 10;
+                check.due(vy, h.at(0, 0, 100, 0, t, 3), "VY behind TICK " + t + " with a draught of " + span[0] + " to " + span[1]);
+            }
+        }
+        DartHangar last = straight("turn 0;");
+        last.draught(200, 200, 5);
+        check.due(0, last.at(0, 0, 100, 0, 199, 3), "VY behind TICK 199");
+        check.due(5, last.at(0, 0, 100, 0, 200, 3), "VY behind TICK 200");
+    }
+
+    private static void draughtsTogether() {
+        check.says(13, "pull is so much less (-20 to 20; of several all together).");
+        DartHangar h = Check.hangar(Check.STONE);
+        h.draught(1, 200, 20);
+        check.due(10, h.at(0, 0, 100, 0, 1, 3), "VY by 20");
+        h.draught(2, 3, -20);
+        h.draught(3, 3, -5);
+        h.draught(3, 4, 1);
+        // 0 - 10 + 20, then - 10, then - 14, then + 11, then + 10.
+        int[] want = {0, 10, 0, -14, -3, 7};
+        for (int t = 0; t < want.length; t++) {
+            check.due(want[t], h.at(0, 0, 100, 0, t, 3), "VY behind TICK " + t);
+        }
+        DartHangar down = Check.hangar(Check.STONE);
+        down.draught(1, 200, -20);
+        check.due(-30, down.at(0, 0, 100, 0, 1, 3), "VY by -20");
+    }
+
+    // ---- promise 14
+
+    private static void aCrateMore() {
+        check.says(14, "A CRATE more: its number; NONE if there are 3.");
+        DartHangar h = new DartHangar();
+        for (int i = 0; i < 3; i++) {
+            check.due(i, h.crate(1000 + i, 10), "number of a CRATE");
+            check.due(i + 1, h.count(11), "CRATES");
+        }
+        check.due(-1, h.crate(1, 9999), "a fourth CRATE");
+        check.due(3, h.count(11), "CRATES then");
+        check.due(3, h.still(), "still()");
+        check.due(0, h.crate(1, 1), "numbers begin anew");
+    }
+
+    private static void threeCrates() {
+        check.says(14, "CRATES, at most 3: at x (1 to 99999), y high (1 to 9999).");
+        DartHangar h = Check.hangar(Check.STONE);
+        check.due(0, h.crate(1, 1), "the least CRATE");
+        check.due(1, h.crate(99999, 9999), "the greatest CRATE");
+        check.due(2, h.crate(3000, 9999), "the third CRATE");
+        check.due(-1, h.crate(500, 9999), "a fourth CRATE");
+        check.due(2000, h.fly(0, 0, 100, 0, 0), "FAR: the fourth one is not there");
+        check.due(3000, h.fly(0, 0, 200, 0, 0), "FAR: the third one is");
+        check.refused(Check.ARGUMENT, "x 0", () -> h.crate(0, 1));
+        check.refused(Check.ARGUMENT, "x 100000", () -> h.crate(100000, 1));
+        check.refused(Check.ARGUMENT, "y 0", () -> h.crate(1, 0));
+        check.refused(Check.ARGUMENT, "y 10000", () -> h.crate(1, 10000));
+    }
+
+    private static void wrongCrate() {
+        check.says(14, "IllegalArgumentException: a number.");
+        DartHangar h = new DartHangar();
+        for (int wild : Check.WILD) {
+            check.refused(Check.ARGUMENT, "x " + wild, () -> h.crate(wild, 5));
+            check.refused(Check.ARGUMENT, "y " + wild, () -> h.crate(5, wild));
+        }
+        int[][] wrong = {{0, 1}, {1, 0}, {100000, 1}, {1, 10000}, {-1, 5}, {5, -1}, {0, 0}};
         for (int[] a : wrong) {
             check.refused(Check.ARGUMENT, "crate(" + a[0] + ", " + a[1] + ")", () -> h.crate(a[0], a[1]));
         }
-        check.due(3, h.count(11), "CRATES");
-        h.still();
-        // Of several in one TICK that at the least x, however they came.
-        h.crate(980, 9999);
-        h.crate(920, 9999);
-        h.crate(940, 9999);
-        check.due(920, h.fly(0, 0, 100, 0, 0), "the least x");
-        h.still();
-        // X goes from 900, which is not below 900.
-        h.crate(900, 9999);
-        check.due(9, h.fly(0, 0, 100, 0, 1), "LONG to a CRATE at the very place");
-        h.still();
-        // Backwards past it: nothing is met.
-        h.crate(1, 9999);
-        check.due(0, h.fly(0, 0, 100, 16, 0), "straight up it never gets to 1");
+        check.due(0, h.count(11), "CRATES behind refused ones");
     }
+
+    // ---- promise 15
 
     private static void still() {
-        check.promise(15);
-        DartHangar h = hangar(Check.STONE);
-        check.due(0, h.still(), "still() of a new object");
+        check.says(15, "No DRAUGHTS, no CRATES any more: how many there were.");
+        DartHangar h = Check.hangar(Check.STONE);
+        check.due(0, h.still(), "still() of none");
         h.draught(1, 200, 10);
-        h.draught(1, 200, 10);
+        check.due(1, h.still(), "still() of a DRAUGHT");
         h.crate(5, 5);
-        check.due(3, h.still(), "still()");
+        check.due(1, h.still(), "still() of a CRATE");
+        for (int i = 0; i < 4; i++) {
+            h.draught(1, 200, 5);
+            h.crate(100, 9999);
+        }
+        check.due(7, h.still(), "still() of all that can be");
         check.due(0, h.count(10), "DRAUGHTS");
         check.due(0, h.count(11), "CRATES");
-        check.due(20, h.fly(0, 0, 100, 0, 1), "LONG in still air");
-        check.due(0, h.draught(1, 200, 10), "numbers begin anew");
-        check.due(1, h.still(), "still()");
+        dueFlight(h, new int[] {0, 0, 100, 0}, 2000, 20, 2000, 1);
+        check.due(0, h.still(), "still() once more");
     }
+
+    // ---- promise 16
 
     private static void damp() {
-        check.promise(16);
-        DartHangar h = hangar("");
+        check.says(16, "DAMP: what it was. IllegalArgumentException: the number.");
+        DartHangar h = new DartHangar();
         check.due(0, h.damp(50), "DAMP at first");
-        // DRAG 2 250 36 by ((48 + 24) 10) = 25.
-        check.due(475, h.at(1, 0, 500, 0, 1, 2), "VX behind one damp TICK");
         check.due(50, h.damp(3), "DAMP then");
-        // 48 3 by 100 is 1: DRAG 18000 by 490 = 36.
-        check.due(464, h.at(1, 0, 500, 0, 1, 2), "VX with DAMP 3");
         check.refused(Check.ARGUMENT, "damp(51)", () -> h.damp(51));
         check.refused(Check.ARGUMENT, "damp(-1)", () -> h.damp(-1));
-        check.due(3, h.count(13), "DAMP");
-        check.due(48, h.make(1, 3), "WEIGHT stays");
-        check.due(10, h.make(1, 6), "LEVER stays");
-        check.due(3, h.damp(0), "DAMP");
-        // T counts it too: e W thin is 2 (48 + 24) 10 = 1440 = LEVER S lift: 10 36 4.
-        Check.law(h, "lift 0 0 4 9 9 9 9 9 9;");
-        check.due(-1, h.rest(1, 2, 1), "RESTS without DAMP");
-        check.due(101, h.rest(1, 2, 0), "a REST between 1 and 2");
-        h.damp(50);
-        check.due(102, h.rest(1, 2, 0), "a REST at 2");
+        for (int wild : Check.WILD) {
+            check.refused(Check.ARGUMENT, "damp(" + wild + ")", () -> h.damp(wild));
+        }
+        check.due(3, h.count(13), "DAMP behind refused ones");
+        check.due(3, h.damp(0), "DAMP behind refused ones");
+        check.due(0, h.damp(0), "DAMP 0");
     }
 
-    private static void slant() {
-        check.promise(17);
-        DartHangar h = hangar(Check.STONE);
-        check.due(14, h.slant(0, 0, 100, true), "BEST SLANT for long: 14 is as good as 15 and 16");
-        int best = -16;
-        for (int s = -16; s <= 16; s++) {
-            best = h.fly(0, 0, 100, s, 0) > h.fly(0, 0, 100, best, 0) ? s : best;
+    private static void dampBounds() {
+        check.says(16, "DAMP (0 to 50; 0 at first)");
+        DartHangar h = new DartHangar();
+        check.due(0, h.count(13), "DAMP at first");
+        h.damp(50);
+        check.due(50, h.count(13), "the greatest DAMP");
+        h.damp(0);
+        check.due(0, h.count(13), "the least DAMP");
+        check.refused(Check.ARGUMENT, "damp(51)", () -> h.damp(51));
+        check.refused(Check.ARGUMENT, "damp(-1)", () -> h.damp(-1));
+    }
+
+    private static void dampWeight() {
+        check.says(16, "W counts W times DAMP by 100 more, cut, in LIFT, DRAG and T.");
+        DartHangar h = Check.hangar("lift 8 0 0 0 0 0 0 0 0;turn 0;pull 1;");
+        h.damp(50);
+        // DRAG 2 250 36 by ((48 + 24) 10) = 25, LIFT 8 250 36 by 720 = 100.
+        check.due(475, h.at(1, 0, 500, 0, 1, 2), "VX with DAMP 50");
+        check.due(99, h.at(1, 0, 500, 0, 1, 3), "VY with DAMP 50");
+        // 48 3 by 100 is 1.4: DRAG 18000 by 490 = 36, LIFT 72000 by 490 = 146.
+        h.damp(3);
+        check.due(464, h.at(1, 0, 500, 0, 1, 2), "VX with DAMP 3");
+        check.due(145, h.at(1, 0, 500, 0, 1, 3), "VY with DAMP 3");
+        // 48 2 by 100 is 0: as without DAMP.
+        h.damp(2);
+        check.due(463, h.at(1, 0, 500, 0, 1, 2), "VX with DAMP 2");
+        check.due(149, h.at(1, 0, 500, 0, 1, 3), "VY with DAMP 2");
+        // WEIGHT and LEVER of the MAKE stay.
+        h.damp(50);
+        int[] want = {6, 6, 36, 48, 240, 216, 10};
+        for (int what = 0; what <= 6; what++) {
+            check.due(want[what], h.make(1, what), "make(1, " + what + ") with DAMP 50");
         }
-        check.due(best, h.slant(0, 0, 100, false), "BEST SLANT for far");
-        h.crate(1, 9999);
-        // Every SLANT but straight up and down ends at 1: the least of them wins, -15.
-        check.due(-15, h.slant(0, 0, 100, false), "BEST SLANT of like ones");
-        DartHangar lift = hangar("");
+        // T: 2 (48 + 24) 10 = 1440 = LEVER S lift: 10 36 4.
+        Check.law(h, "lift 0 0 4 9 9 9 9 9 9;");
+        check.due(102, h.rest(1, 2, 0), "a REST at 2 with DAMP 50");
+        h.damp(0);
+        check.due(101, h.rest(1, 2, 0), "a REST between 1 and 2 without");
+        // 49 10 2 = 980 with DAMP 3: above 360 2 = 720, below 360 3 = 1080.
+        h.damp(3);
+        check.due(101, h.rest(1, 2, 0), "a REST between 1 and 2 with DAMP 3");
+    }
+
+    // ---- promise 17
+
+    private static void bestSlant() {
+        check.says(17, "BEST SLANT.");
+        DartHangar h = Check.hangar("");
         for (int e = -9; e <= 9; e += 6) {
             int far = -16;
-            int lasts = -16;
+            int lasted = -16;
             for (int s = -16; s <= 16; s++) {
-                far = lift.fly(1, e, 150, s, 0) > lift.fly(1, e, 150, far, 0) ? s : far;
-                lasts = lift.fly(1, e, 150, s, 1) > lift.fly(1, e, 150, lasts, 1) ? s : lasts;
+                far = h.fly(1, e, 150, s, 0) > h.fly(1, e, 150, far, 0) ? s : far;
+                lasted = h.fly(1, e, 150, s, 1) > h.fly(1, e, 150, lasted, 1) ? s : lasted;
             }
-            check.due(far, lift.slant(1, e, 150, false), "BEST SLANT for far, EARS " + e);
-            check.due(lasts, lift.slant(1, e, 150, true), "BEST SLANT for long, EARS " + e);
+            check.due(far, h.slant(1, e, 150, false), "BEST SLANT for far, EARS " + e);
+            check.due(lasted, h.slant(1, e, 150, true), "BEST SLANT for long, EARS " + e);
         }
+    }
+
+    private static void bestSlantTerms() {
+        check.says(17, "BEST SLANT of a MAKE with EARS and a SPEED: of -16 to 16 that with the greatest FAR (or LONG); of like ones the least.");
+        DartHangar h = Check.hangar(Check.STONE);
+        // SLANTS 14, 15 and 16 last 32 TICKS all: VY 98 or more of 100.
+        check.due(14, h.slant(0, 0, 100, true), "BEST SLANT for long");
+        check.due(32, h.fly(0, 0, 100, 14, 1), "LONG of 14");
+        check.due(32, h.fly(0, 0, 100, 16, 1), "LONG of 16");
+        check.due(31, h.fly(0, 0, 100, 13, 1), "LONG of 13");
+        // A SPEED of which 16 alone lasts longest: the last SLANT is tried too.
+        int only = 10;
+        for (int speed = 10; speed <= 400; speed++) {
+            only = h.fly(0, 0, speed, 16, 1) > h.fly(0, 0, speed, 15, 1) ? speed : only;
+        }
+        check.due(16, h.slant(0, 0, only, true), "BEST SLANT for long of SPEED " + only);
+        // A CRATE at 1 that no SLANT but straight up and down misses: FAR is 1 for -15 to 15, and 0 for -16 and 16.
+        h.crate(1, 9999);
+        check.due(-15, h.slant(0, 0, 100, false), "BEST SLANT for far of like ones");
+        // FAR below 0 for all, the greatest still wins; -16 and 16 have 0.
+        DartHangar back = Check.hangar("turn 0;thin 1;lift 0 0 0 0 0 0 0 0 0;drag 22 0 0 0 0 0 0 0 0;");
+        check.due(-16, back.slant(0, 0, 200, false), "BEST SLANT where FAR is 0 or below");
+        // LIFT that pushes all backwards: the greatest FAR is below 0.
+        DartHangar below = Check.hangar("turn 0;thin 1;lift 3 0 0 0 0 0 0 0 3;drag 44 0 0 0 0 0 0 0 0;");
+        int best = -16;
+        for (int s = -16; s <= 16; s++) {
+            best = below.fly(0, 0, 200, s, 0) > below.fly(0, 0, 200, best, 0) ? s : best;
+        }
+        check.due(best, below.slant(0, 0, 200, false), "BEST SLANT where most FAR are below 0");
         check.refused(Check.ARGUMENT, "slant with EARS -10", () -> h.slant(0, -10, 100, true));
+        check.refused(Check.ARGUMENT, "slant with EARS 10", () -> h.slant(0, 10, 100, true));
         check.refused(Check.ARGUMENT, "slant with SPEED 9", () -> h.slant(0, 0, 9, true));
-        check.refused(Check.STATE, "slant without a MAKE", () -> h.slant(2, 10, 100, true));
-        check.refused(Check.NO_ELEMENT, "slant of no WAY", () -> h.slant(3, 10, 100, true));
-    }
-
-    private static void rest() {
-        check.promise(18);
-        // LEVER 10, S 36, W 48, thin 10: T(k) is 480 e - 360 lift of k.
-        DartHangar h = hangar("");
-        check.due(1, h.rest(1, 0, -1), "RESTS with EARS 0");
-        check.due(100, h.rest(1, 0, 0), "at 0: its lift is 0");
-        check.due(-1, h.rest(1, 0, 1), "a second one");
-        check.due(-1, h.rest(1, 0, -2), "rest(1, 0, -2)");
-        // EARS 9: 4320 - 360 lift: 0 at lift 12, above 0 at 1 (10), below at 2 (20); lift 10 at 8 is above 0 again.
-        check.due(1, h.rest(1, 9, -1), "RESTS with EARS 9");
-        check.due(101, h.rest(1, 9, 0), "between 1 and 2");
-        // EARS -9: lift -12 at ATTACK -1 to -2: T(-2) is 20 360 - 4320 above 0, T(-1) below.
-        check.due(1, h.rest(1, -9, -1), "RESTS with EARS -9");
-        check.due(98, h.rest(1, -9, 0), "between -2 and -1");
-        DartHangar two = hangar("lift 0 12 0 12 20 0 20 4 12;");
-        // EARS 9 of WAY 1: T 0 at 1, 3 and 8; above 0 to below 0: 3 is 0 itself; 5 (0) to 6 (20).
-        check.due(4, two.rest(1, 9, -1), "RESTS of a bent lift");
-        int[] want = {101, 103, 105, 108};
-        for (int i = 0; i < 4; i++) {
-            check.due(want[i], two.rest(1, 9, i), "REST " + i);
-        }
-        check.due(-1, two.rest(1, 9, 4), "a fifth one");
-        check.due(17, two.rest(0, 0, -1), "LEVER 0 and EARS 0: all");
-        check.due(92, two.rest(0, 0, 0), "the first of all");
-        check.due(108, two.rest(0, 0, 16), "the last of all");
-        // 4 by 3, nose 1: S 9, LEVER 5; W 12 and 1 by DAMP 9: T(k) is 13 e - 45 lift: 91 - 90 = 1 at lift 2, below 0 at lift 3.
-        DartHangar near = new DartHangar();
-        near.sheet(4, 3);
-        Check.way(near, "nose 1;");
-        Check.law(near, "thin 1;lift 0 0 2 3 3 3 3 3 3;");
-        near.damp(9);
-        check.due(1, near.rest(0, 7, -1), "RESTS from a T of 1");
-        check.due(102, near.rest(0, 7, 0), "that REST");
-        check.refused(Check.ARGUMENT, "rest with EARS 10", () -> h.rest(1, 10, 0));
-        check.refused(Check.STATE, "rest without a MAKE", () -> h.rest(2, 10, 0));
-        check.refused(Check.NO_ELEMENT, "rest of no WAY", () -> h.rest(3, 10, 0));
-    }
-
-    private static void why() {
-        check.promise(19);
-        DartHangar h = hangar("");
-        check.due(0, h.why(1, 0), "a REST");
-        check.due(2, h.why(0, 1), "LEVER 0 and EARS 1 stall");
-        check.due(1, h.why(0, -1), "LEVER 0 and EARS -1 nose down");
-        // T(k) is 480 e - 360 lift of k: EARS 9 and lift 12 make 0 at ATTACK 8 alone, EARS -9 at -8 alone.
-        DartHangar edge = hangar("lift 0 0 0 0 0 0 0 0 12;");
-        check.due(0, edge.why(1, 9), "a REST at 8");
-        check.due(108, edge.rest(1, 9, 0), "a REST at 8");
-        check.due(0, edge.why(1, -9), "a REST at -8");
-        check.due(92, edge.rest(1, -9, 0), "a REST at -8");
-        check.due(2, hangar("lift 0 0 0 0 0 0 0 0 11;").why(1, 9), "just above 0 at 8 too");
-        check.due(1, hangar("lift 0 0 0 0 0 0 0 0 11;").why(1, -9), "just below 0 at -8 too");
-        DartHangar steep = hangar("lift 2 2 2 2 2 2 2 2 2;thin 1;");
-        // thin 1: 48 e - 360 lift: T is below 0 from 0 on, above 0 ahead of it: a REST at -1.
-        check.due(0, steep.why(1, 1), "a REST at -1");
-        check.due(99, steep.rest(1, 1, 0), "a REST at -1");
-        // A LEVER below 0 turns T round: below 0 first, then above: no REST, and neither all above nor all below.
-        DartHangar back = hangar("lift 2 2 2 2 2 2 2 2 2;thin 1;");
-        back.sheet(4, 4);
-        int way = Check.way(back, "corner 4;side 2;");
-        // LAYERS 1 0, 2 1, 2 3, 3 4: S 7, W 16, G 84, H 31: 10 (31 16 - 84 7) by 112.
-        check.due(-8, back.make(way, 6), "the LEVER of corner 4, side 2");
-        check.due(3, back.why(way, 0), "WHY with a LEVER below 0");
-        check.due(0, back.rest(way, 0, -1), "its RESTS");
-        check.refused(Check.ARGUMENT, "why with EARS -10", () -> h.why(1, -10));
-        check.refused(Check.STATE, "why without a MAKE", () -> h.why(2, 10));
-        check.refused(Check.NO_ELEMENT, "why of no WAY", () -> h.why(3, 10));
+        check.refused(Check.ARGUMENT, "slant with SPEED 1000", () -> h.slant(0, 0, 1000, true));
     }
 }

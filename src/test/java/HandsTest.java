@@ -1,52 +1,55 @@
-/** Promises 20 to 33: hands, reach, ears, the best way, changes, hoops, odds, contests, hours, seen, found. */
+/** Promises 20 to 26: hands and their throws, reach, the best ears, the best way, the best change, mended ways. */
 public final class HandsTest {
     private static final Check check = new Check();
+    private static final String[] KINDS = {"nose", "side", "corner"};
 
     public static void main(String[] args) {
-        hand();
-        toss();
+        aHandMore();
+        handsNumbered();
+        aThrowMore();
+        noSuchHand();
+        wrongThrow();
+        throwTerms();
+
         reach();
+        reachTerms();
+
         ears();
+        earsTerms();
+
         best();
+        noBest();
+        bestTerms();
+
         change();
+        noChange();
+        wrongChange();
+        changeTerms();
+        bestChangeTerms();
+
         mend();
-        hoop();
-        odds();
-        enter();
-        wins();
-        hours();
-        seen();
-        found();
+        mendTerms();
         check.end();
     }
 
-    /** WAY 0 is the whole sheet, WAY 1 nose 2, WAY 2 has no MAKE; HAND 0 throws 100 at 0 (2) and at 16 (1), HAND 1 not at all. */
-    private static DartHangar hangar(String law) {
-        DartHangar h = new DartHangar();
-        Check.way(h, "");
-        Check.way(h, "nose 2;");
-        Check.way(h, "nose 5;");
-        if (!law.isEmpty()) {
-            Check.law(h, law);
-        }
-        h.hand();
-        h.toss(0, 100, 0, 2);
-        h.toss(0, 100, 16, 1);
-        h.hand();
-        return h;
-    }
+    // ---- promise 20
 
-    private static void hand() {
-        check.promise(20);
+    private static void aHandMore() {
+        check.says(20, "A HAND more, without THROWS: its number; NONE if there are 5.");
         DartHangar h = new DartHangar();
+        h.way(0);
         for (int i = 0; i < 5; i++) {
-            check.due(i, h.hand(), "HAND " + i);
+            check.due(i, h.hand(), "number of a HAND");
+            check.due(i + 1, h.count(1), "HANDS");
+            check.due(0, h.reach(0, 0, i, true), "REACH of a new HAND");
+            check.due(1, h.toss(i, 10, 0, 1), "its first THROW");
         }
         check.due(-1, h.hand(), "a sixth HAND");
-        check.due(5, h.count(1), "HANDS");
+        check.due(5, h.count(1), "HANDS then");
+        check.due(2, h.toss(4, 10, 0, 1), "a THROW of the fifth HAND behind that");
         // A number that an IMAGE took back comes again without THROWS.
         DartHangar again = new DartHangar();
-        Check.way(again, "");
+        again.way(0);
         again.image(0);
         again.hand();
         again.toss(0, 100, 0, 1);
@@ -56,166 +59,252 @@ public final class HandsTest {
         check.due(1, again.toss(0, 100, 0, 1), "its first THROW");
     }
 
-    private static void toss() {
-        check.promise(21);
-        DartHangar h = new DartHangar();
-        check.refused(Check.NO_ELEMENT, "toss of no HAND, wrong numbers", () -> h.toss(0, 0, 0, 0));
+    private static void handsNumbered() {
+        check.says(20, "HANDS, at most 5, numbered as they come");
+        DartHangar h = Check.hangar(Check.STONE);
+        for (int i = 0; i < 5; i++) {
+            check.due(i, h.hand(), "number of a HAND");
+            h.toss(i, 100 + 10 * i, 0, 1);
+        }
+        for (int i = 0; i < 5; i++) {
+            check.due(20 * (100 + 10 * i), h.reach(0, 0, i, false), "REACH of HAND " + i);
+        }
+        check.refused(Check.NO_ELEMENT, "HAND 5", () -> h.reach(0, 0, 5, false));
+    }
+
+    // ---- promise 21
+
+    private static void aThrowMore() {
+        check.says(21, "A THROW more of a HAND: how many it has; NONE if it has 4.");
+        DartHangar h = Check.hangar(Check.STONE);
         h.hand();
-        check.due(1, h.toss(0, 10, -16, 1), "the first THROW");
-        check.due(2, h.toss(0, 999, 16, 9), "the second THROW");
-        int[][] wrong = {{9, 0, 1}, {1000, 0, 1}, {10, -17, 1}, {10, 17, 1}, {10, 0, 0}, {10, 0, 10}, {Integer.MIN_VALUE, 0, 1}};
+        h.hand();
+        for (int i = 1; i <= 4; i++) {
+            check.due(i, h.toss(0, 100, 0, i), "THROWS of HAND 0");
+            check.due(2000 * i * (i + 1) / 2, h.reach(0, 0, 0, false), "its REACH");
+        }
+        check.due(-1, h.toss(0, 100, 0, 9), "a fifth THROW");
+        check.due(20000, h.reach(0, 0, 0, false), "its REACH then");
+        check.due(1, h.toss(1, 100, 0, 1), "THROWS of HAND 1");
+    }
+
+    private static void noSuchHand() {
+        check.says(21, "NoSuchElementException: no such HAND (as everywhere)");
+        DartHangar h = new DartHangar();
+        check.refused(Check.NO_ELEMENT, "toss(0, ..) without HANDS", () -> h.toss(0, 10, 0, 1));
+        h.hand();
+        check.due(1, h.toss(0, 10, 0, 1), "toss(0, ..)");
+        check.refused(Check.NO_ELEMENT, "toss(1, ..)", () -> h.toss(1, 10, 0, 1));
+        check.refused(Check.NO_ELEMENT, "toss(-1, ..)", () -> h.toss(-1, 10, 0, 1));
+        for (int wild : Check.WILD) {
+            check.refused(Check.NO_ELEMENT, "toss(" + wild + ", ..)", () -> h.toss(wild, 10, 0, 1));
+        }
+    }
+
+    private static void wrongThrow() {
+        check.says(21, "IllegalArgumentException: a number.");
+        DartHangar h = new DartHangar();
+        h.hand();
+        int[][] wrong = {{9, 0, 1}, {1000, 0, 1}, {10, -17, 1}, {10, 17, 1}, {10, 0, 0}, {10, 0, 10}, {0, 0, 1}, {10, 0, -1}};
         for (int[] a : wrong) {
             check.refused(Check.ARGUMENT, "toss(0, " + a[0] + ", " + a[1] + ", " + a[2] + ")", () -> h.toss(0, a[0], a[1], a[2]));
         }
-        check.due(3, h.toss(0, 10, 0, 1), "the third THROW");
-        check.due(4, h.toss(0, 10, 0, 1), "the fourth THROW");
-        check.due(-1, h.toss(0, 10, 0, 1), "a fifth THROW");
+        for (int wild : Check.WILD) {
+            check.refused(Check.ARGUMENT, "SPEED " + wild, () -> h.toss(0, wild, 0, 1));
+            check.refused(Check.ARGUMENT, "SLANT " + wild, () -> h.toss(0, 10, wild, 1));
+            check.refused(Check.ARGUMENT, "chance " + wild, () -> h.toss(0, 10, 0, wild));
+        }
+        for (int i = 1; i <= 4; i++) {
+            check.due(i, h.toss(0, 10, 0, 1), "THROWS behind refused ones");
+        }
         check.refused(Check.ARGUMENT, "a wrong fifth THROW", () -> h.toss(0, 10, 0, 0));
-        check.refused(Check.NO_ELEMENT, "toss(1, ..)", () -> h.toss(1, 10, 0, 1));
-        check.refused(Check.NO_ELEMENT, "toss(-1, ..)", () -> h.toss(-1, 10, 0, 1));
     }
 
+    private static void throwTerms() {
+        check.says(21, "THROWS, at most 4 each: a SPEED, a SLANT, a chance (1 to 9).");
+        DartHangar h = Check.hangar(Check.STONE);
+        h.hand();
+        check.due(1, h.toss(0, 10, -16, 1), "the least THROW");
+        check.due(19, h.reach(0, 0, 0, true), "LONG of SPEED 10 at -16");
+        check.due(2, h.toss(0, 999, 16, 9), "the greatest THROW");
+        check.due(19 + 9 * 200, h.reach(0, 0, 0, true), "and nine times 200 TICKS");
+        check.refused(Check.ARGUMENT, "chance 0", () -> h.toss(0, 10, 0, 0));
+        check.refused(Check.ARGUMENT, "chance 10", () -> h.toss(0, 10, 0, 10));
+        check.due(3, h.toss(0, 100, 0, 1), "a third THROW");
+        check.due(4, h.toss(0, 100, 0, 1), "a fourth THROW");
+        check.due(-1, h.toss(0, 100, 0, 1), "a fifth THROW");
+    }
+
+    // ---- promise 22
+
     private static void reach() {
-        check.promise(22);
-        DartHangar h = hangar(Check.STONE);
+        check.says(22, "REACH of a WAY with EARS by a HAND.");
+        DartHangar h = Check.hands("");
+        for (int e = -9; e <= 9; e += 3) {
+            check.due(2 * h.fly(1, e, 100, 0, 0) + h.fly(1, e, 100, 16, 0), h.reach(1, e, 0, false), "REACH, far, EARS " + e);
+            check.due(2 * h.fly(1, e, 100, 0, 1) + h.fly(1, e, 100, 16, 1), h.reach(1, e, 0, true), "REACH, long, EARS " + e);
+        }
+        check.refused(Check.ARGUMENT, "reach with EARS 10", () -> h.reach(0, 10, 0, true));
+        check.refused(Check.ARGUMENT, "reach with EARS -10", () -> h.reach(0, -10, 0, true));
+    }
+
+    private static void reachTerms() {
+        check.says(22, "REACH of a WAY with EARS by a HAND: the sum over its THROWS of chance times FAR, or (long) times LONG.");
+        DartHangar h = Check.hands(Check.STONE);
         check.due(2 * 2000, h.reach(0, 0, 0, false), "REACH, far");
         check.due(2 * 20 + 32, h.reach(0, 0, 0, true), "REACH, long");
         check.due(0, h.reach(0, 0, 1, false), "REACH of a HAND without THROWS");
-        DartHangar lift = hangar("");
-        for (int e = -9; e <= 9; e += 3) {
-            check.due(2 * lift.fly(1, e, 100, 0, 0) + lift.fly(1, e, 100, 16, 0), lift.reach(1, e, 0, false), "REACH, far, EARS " + e);
-            check.due(2 * lift.fly(1, e, 100, 0, 1) + lift.fly(1, e, 100, 16, 1), lift.reach(1, e, 0, true), "REACH, long, EARS " + e);
+        check.due(0, h.reach(0, 0, 1, true), "REACH of a HAND without THROWS, long");
+        // As far as can be: VX -2000 in each of 200 TICKS, four THROWS of chance 9.
+        DartHangar most = Check.hangar("turn 0;thin 1;lift 0 0 0 0 0 0 0 0 0;drag 99 0 0 0 0 0 0 0 0;");
+        most.draught(1, 200, 10);
+        most.hand();
+        for (int i = 0; i < 4; i++) {
+            most.toss(0, 999, 0, 9);
         }
-        check.refused(Check.ARGUMENT, "reach with EARS 10", () -> h.reach(0, 10, 0, true));
-        check.refused(Check.STATE, "reach without a MAKE", () -> h.reach(2, 10, 0, true));
-        check.refused(Check.NO_ELEMENT, "reach by no HAND, without a MAKE", () -> h.reach(2, 10, 2, true));
-        check.refused(Check.NO_ELEMENT, "reach of no WAY", () -> h.reach(3, 10, 0, true));
+        check.due(-36 * 400000, most.reach(0, 0, 0, false), "REACH as far as can be");
+        check.due(36 * 200, most.reach(0, 0, 0, true), "REACH as long as can be");
+        // A REACH below 0.
+        DartHangar back = Check.hands("turn 0;thin 1;lift 0 0 0 0 0 0 0 0 0;drag 22 0 0 0 0 0 0 0 0;");
+        check.due(2 * back.fly(0, 0, 100, 0, 0), back.reach(0, 0, 0, false), "a REACH below 0");
+        check.due(true, back.reach(0, 0, 0, false) < 0, "it is below 0");
     }
+
+    // ---- promise 23
 
     private static void ears() {
-        check.promise(23);
-        DartHangar h = hangar(Check.STONE);
-        check.due(0, h.ears(0, 0, false), "all EARS alike");
-        check.due(0, h.ears(0, 1, true), "no THROWS");
-        DartHangar lift = hangar("");
+        check.says(23, "BEST EARS.");
+        DartHangar h = Check.hands("");
         for (int way = 0; way <= 1; way++) {
             for (int lasts = 0; lasts <= 1; lasts++) {
-                check.due(earsByHand(lift, way, lasts == 1), lift.ears(way, 0, lasts == 1), "BEST EARS of WAY " + way + ", " + lasts);
+                int best = -9;
+                for (int e = -9; e <= 9; e++) {
+                    long more = h.reach(way, e, 0, lasts == 1) - h.reach(way, best, 0, lasts == 1);
+                    best = more > 0 || more == 0 && Math.abs(e) < Math.abs(best) ? e : best;
+                }
+                check.due(best, h.ears(way, 0, lasts == 1), "BEST EARS of WAY " + way + ", " + lasts);
             }
         }
-        earsOfLikeOnes();
-        check.refused(Check.STATE, "ears without a MAKE", () -> h.ears(2, 0, true));
-        check.refused(Check.NO_ELEMENT, "ears by no HAND, without a MAKE", () -> h.ears(2, 2, true));
-        check.refused(Check.NO_ELEMENT, "ears of no WAY", () -> h.ears(-1, 0, true));
     }
 
-    private static int earsByHand(DartHangar h, int way, boolean lasts) {
-        int best = 0;
-        for (int i = 1; i <= 9; i++) {
-            best = h.reach(way, -i, 0, lasts) > h.reach(way, best, 0, lasts) ? -i : best;
-            best = h.reach(way, i, 0, lasts) > h.reach(way, best, 0, lasts) ? i : best;
-        }
-        return best;
-    }
-
-    private static void earsOfLikeOnes() {
-        // LEVER 0, drag least when the nose is off the PATH: EARS of both signs slow it less than 0.
-        DartHangar h = new DartHangar();
-        Check.way(h, "");
-        Check.law(h, "lift 0 0 0 0 0 0 0 0 0;drag 9 0 0 0 0 0 0 0 0;turn 99;pull 1;slow 0;");
+    /** With a THROW of this SPEED into this air, a CRATE at x, just those EARS have the greatest FAR. */
+    private static void dueEars(String law, int x, int speed, int want, int... alike) {
+        DartHangar h = Check.hangar("lift 0 0 0 0 0 0 0 0 0;" + law);
+        h.crate(x, 9999);
         h.hand();
-        h.toss(0, 400, 0, 1);
-        int best = 0;
+        h.toss(0, speed, 0, 1);
+        long most = h.reach(0, alike[0], 0, false);
         for (int e = -9; e <= 9; e++) {
-            long r = h.reach(0, e, 0, true);
-            long most = h.reach(0, best, 0, true);
-            boolean nearer = Math.abs(e) < Math.abs(best) || Math.abs(e) == Math.abs(best) && e < best;
-            best = r > most || r == most && nearer ? e : best;
+            boolean one = false;
+            for (int a : alike) {
+                one |= a == e;
+            }
+            long got = h.reach(0, e, 0, false);
+            check.due(true, one ? got == most : got < most, "EARS " + e + " are " + (one ? "" : "not ") + "among the best by " + law);
         }
-        check.due(best, h.ears(0, 0, true), "BEST EARS of like ones");
+        check.due(want, h.ears(0, 0, false), "BEST EARS by " + law);
     }
+
+    private static void earsTerms() {
+        check.says(23, "BEST EARS: of -9 to 9 with the greatest REACH; of like ones the least without sign, then the one below 0.");
+        DartHangar h = Check.hands(Check.STONE);
+        check.due(0, h.ears(0, 0, false), "all EARS alike");
+        check.due(0, h.ears(0, 0, true), "all EARS alike, long");
+        check.due(0, h.ears(0, 1, true), "no THROWS");
+        dueEars("drag 12 2 0 0 0 0 0 0 0;turn 42;slow 6;", 3694, 334, -9, -9, 9);
+        dueEars("drag 12 2 0 0 0 0 0 0 0;turn 58;slow 6;", 3203, 325, -7, -9, -8, -7, 7, 8, 9);
+        dueEars("drag 12 2 0 0 0 0 0 0 0;turn 35;slow 6;", 3997, 404, 7, -9, 7, 8, 9);
+        dueEars("drag 18 2 0 0 0 0 0 0 0;turn 36;slow 1;", 2590, 377, 4, -9, -8, 4, 5, 6, 7);
+        dueEars("drag 11 3 0 0 0 0 0 0 0;turn 18;slow 2;", 3909, 298, -8, -9, -8);
+        dueEars("drag 0 3 0 0 0 0 0 0 0;turn 44;slow 3;", 2786, 113, -2, -3, -2);
+        dueEars("drag 18 4 0 0 0 0 0 0 0;turn 35;slow 0;", 2955, 245, 8, 8, 9);
+    }
+
+    // ---- promise 24
 
     private static void best() {
-        check.promise(24);
-        DartHangar h = hangar(Check.STONE);
-        check.due(0, h.best(0, false), "all WAYS alike");
-        h.sheet(4, 3);
-        check.due(0, h.best(0, false), "BEST WAY of another SHEET");
-        DartHangar none = new DartHangar();
-        none.hand();
-        check.due(-1, none.best(0, true), "no WAY");
-        Check.way(none, "nose 5;");
-        check.due(-1, none.best(0, true), "no WAY with a MAKE");
-        Check.way(none, "corner 7;");
-        Check.way(none, "nose 1;");
-        check.due(2, none.best(0, true), "the only WAY with a MAKE, no THROWS");
-        check.refused(Check.NO_ELEMENT, "best by no HAND", () -> none.best(1, true));
-        DartHangar lift = hangar("");
-        Check.way(lift, "nose 3;");
-        Check.way(lift, "nose 1;side 2;");
-        for (int lasts = 0; lasts <= 1; lasts++) {
-            boolean l = lasts == 1;
+        check.says(24, "BEST WAY");
+        DartHangar h = Check.hands("");
+        Check.way(h, "nose 3;");
+        Check.way(h, "nose 1;side 2;");
+        for (int i = 0; i <= 1; i++) {
+            boolean lasts = i == 1;
             int best = 0;
-            for (int way = 1; way < 5; way++) {
-                if (lift.breaks(way) == -1) {
-                    best = lift.reach(way, lift.ears(way, 0, l), 0, l) > lift.reach(best, lift.ears(best, 0, l), 0, l) ? way : best;
-                }
+            for (int way : new int[] {1, 3, 4}) {
+                long more = h.reach(way, h.ears(way, 0, lasts), 0, lasts) - h.reach(best, h.ears(best, 0, lasts), 0, lasts);
+                best = more > 0 ? way : best;
             }
-            check.due(best, lift.best(0, l), "BEST WAY, " + lasts);
+            check.due(best, h.best(0, lasts), "BEST WAY, " + lasts);
         }
-        // A WAY whose REACH is below 0 is better than none.
+    }
+
+    private static void noBest() {
+        check.says(24, "NONE: no WAY has a MAKE.");
+        DartHangar h = new DartHangar();
+        h.hand();
+        check.due(-1, h.best(0, true), "no WAY");
+        check.due(-1, h.best(0, false), "no WAY");
+        for (int i = 0; i < 6; i++) {
+            check.due(-1, h.best(0, true), "no WAY with a MAKE of " + i);
+            Check.way(h, "nose 5;");
+        }
+        check.due(-1, h.best(0, true), "no WAY with a MAKE of 6");
+        h.sheet(10, 6);
+        check.due(0, h.best(0, true), "a SHEET that gives them one");
+        DartHangar last = new DartHangar();
+        last.hand();
+        Check.way(last, "nose 5;");
+        Check.way(last, "corner 7;");
+        Check.way(last, "nose 1;");
+        check.due(2, last.best(0, true), "the only WAY with a MAKE, no THROWS");
+    }
+
+    private static void bestTerms() {
+        check.says(24, "BEST WAY: of those that have a MAKE, each with its BEST EARS, that with the greatest REACH; of like ones the least.");
+        DartHangar alike = Check.hands(Check.STONE);
+        check.due(0, alike.best(0, false), "all WAYS alike");
+        check.due(0, alike.best(1, true), "no THROWS");
+        // The first has no MAKE: of like ones the next.
+        DartHangar next = new DartHangar();
+        Check.law(next, Check.STONE);
+        Check.way(next, "nose 5;");
+        Check.way(next, "nose 2;");
+        Check.way(next, "nose 2;");
+        next.hand();
+        next.toss(0, 100, 0, 1);
+        check.due(1, next.best(0, false), "of like ones with a MAKE the least");
+        // A WAY whose REACH is below 0 is better than none; the greatest of them wins.
         DartHangar back = new DartHangar();
-        Check.way(back, "");
         Check.law(back, "lift 0 0 0 0 0 0 0 0 0;drag 99 0 0 0 0 0 0 0 0;thin 1;turn 0;");
+        Check.way(back, "");
+        Check.way(back, "nose 4;side 3;");
         back.hand();
-        back.toss(0, 999, 0, 1);
-        check.due(1, back.reach(0, 0, 0, false) < 0 ? 1 : 0, "a REACH below 0");
-        check.due(0, back.best(0, false), "BEST WAY by a REACH below 0");
+        back.toss(0, 100, 0, 1);
+        check.due(true, back.reach(0, 0, 0, false) < back.reach(1, 0, 0, false), "the whole SHEET is thrown back more");
+        check.due(true, back.reach(1, 0, 0, false) < 0, "both are thrown back");
+        check.due(1, back.best(0, false), "BEST WAY by a REACH below 0");
+        ownBestEars();
     }
 
-    private static void change() {
-        check.promise(25);
-        DartHangar h = hangar(Check.STONE);
-        for (int what = 0; what <= 2; what++) {
-            check.due(-1, h.change(0, 0, 0, false, what), "no FOLD to change, what " + what);
-        }
-        check.due(0, h.change(1, 0, 0, false, 0), "which FOLD");
-        check.due(1, h.change(1, 0, 0, false, 1), "nose 1 is the first of like ones");
-        check.due(4000, h.change(1, 0, 0, false, 2), "REACH then");
-        check.due(2, h.fold(1, 0), "the WAY stays as it is");
-        int one = Check.way(h, "nose 1;");
-        check.due(2, h.change(one, 0, 0, false, 1), "a FOLD becomes another one: nose 2");
-        int thick = Check.way(h, "nose 4;nose 2;");
-        check.due(0, h.change(thick, 0, 0, false, 0), "the first FOLD of like ones");
-        check.due(1, h.change(thick, 0, 0, false, 1), "nose 1 of like ones");
-        changesByHand();
-        check.refused(Check.ARGUMENT, "change with EARS 10", () -> h.change(1, 10, 0, true, 0));
-        check.refused(Check.ARGUMENT, "change(.. 3)", () -> h.change(1, 0, 0, true, 3));
-        check.refused(Check.ARGUMENT, "change(.. -1)", () -> h.change(1, 0, 0, true, -1));
-        check.refused(Check.STATE, "change without a MAKE", () -> h.change(2, 10, 0, true, 3));
-        check.refused(Check.NO_ELEMENT, "change by no HAND, without a MAKE", () -> h.change(2, 10, 2, true, 3));
-        check.refused(Check.NO_ELEMENT, "change of no WAY", () -> h.change(9, 10, 0, true, 3));
+    /** Each WAY with its own BEST EARS: with EARS 0 for both, or with those of the first one, the first one would win. */
+    private static void ownBestEars() {
+        DartHangar h = new DartHangar();
+        Check.way(h, "nose 3;");
+        Check.way(h, "nose 1;");
+        h.hand();
+        h.toss(0, 233, 3, 1);
+        check.due(1, h.ears(0, 0, false), "BEST EARS of WAY 0");
+        check.due(2, h.ears(1, 0, false), "BEST EARS of WAY 1");
+        check.due(true, h.reach(0, 0, 0, false) > h.reach(1, 0, 0, false), "with EARS 0 WAY 0 would win");
+        check.due(true, h.reach(0, 1, 0, false) > h.reach(1, 1, 0, false), "with EARS 1 WAY 0 would win");
+        check.due(1, h.best(0, false), "BEST WAY by BEST EARS");
     }
 
-    private static final String[] KINDS = {"nose", "side", "corner"};
+    // ---- promise 25
 
-    private static void changesByHand() {
-        DartHangar h = hangar("");
-        int way = Check.way(h, "nose 2;corner 3;");
-        for (int lasts = 0; lasts <= 1; lasts++) {
-            for (int e = -6; e <= 6; e += 3) {
-                long[] want = changeByHand(h, new int[] {2, 203}, e, lasts == 1);
-                for (int what = 0; what <= 2; what++) {
-                    check.due(want[what], h.change(way, e, 0, lasts == 1, what), "change(" + way + ", " + e + ", 0, " + lasts + ", " + what + ")");
-                }
-            }
-        }
-    }
-
-    /** BEST CHANGE by the other calls alone: each changed WAY is written as a text of its own. */
-    private static long[] changeByHand(DartHangar h, int[] codes, int ears, boolean lasts) {
+    /** BEST CHANGE by the other calls alone: which FOLD, its code, its REACH; each changed WAY is a text of its own. */
+    private static long[] changeByHand(DartHangar h, int[] codes, int ears, int hand, boolean lasts) {
         long[] best = {-1, -1, -1};
-        h.image(2);
         for (int i = 0; i < codes.length; i++) {
             for (int f = 0; f < 18; f++) {
                 int code = 100 * (f / 6) + f % 6 + 1;
@@ -224,9 +313,10 @@ public final class HandsTest {
                     int c = k == i ? code : codes[k];
                     text.append(KINDS[c / 100]).append(' ').append(c % 100).append(';');
                 }
+                h.image(2);
                 int way = Check.way(h, text.toString());
                 if (code != codes[i] && h.breaks(way) == -1) {
-                    long r = h.reach(way, ears, 0, lasts);
+                    long r = h.reach(way, ears, hand, lasts);
                     best = best[0] == -1 || r > best[2] ? new long[] {i, code, r} : best;
                 }
                 h.restore(2);
@@ -235,19 +325,133 @@ public final class HandsTest {
         return best;
     }
 
+    /** A new object of which the last WAY has these FOLDS, thrown by HAND 0. */
+    private static DartHangar thrown(int rows, int columns, String law, int speed, int slant, int... codes) {
+        DartHangar h = new DartHangar();
+        h.sheet(rows, columns);
+        Check.law(h, law);
+        StringBuilder text = new StringBuilder();
+        for (int c : codes) {
+            text.append(KINDS[c / 100]).append(' ').append(c % 100).append(';');
+        }
+        Check.way(h, text.toString());
+        h.hand();
+        h.toss(0, speed, slant, 1);
+        return h;
+    }
+
+    private static void change() {
+        check.says(25, "BEST CHANGE, what 0: which FOLD, 1: 100 times the KIND and N, 2: REACH then.");
+        for (int lasts = 0; lasts <= 1; lasts++) {
+            for (int e = -6; e <= 6; e += 3) {
+                DartHangar h = thrown(8, 6, "", 100, 3, 2, 203);
+                long[] want = changeByHand(h, new int[] {2, 203}, e, 0, lasts == 1);
+                for (int what = 0; what <= 2; what++) {
+                    check.due(want[what], h.change(0, e, 0, lasts == 1, what), "change(0, " + e + ", 0, " + lasts + ", " + what + ")");
+                }
+            }
+        }
+        DartHangar back = thrown(8, 6, "turn 0;thin 1;lift 0 0 0 0 0 0 0 0 0;drag 99 0 0 0 0 0 0 0 0;", 100, 0, 1);
+        check.due(true, back.change(0, 0, 0, false, 2) < -1, "a REACH below 0 is told");
+    }
+
+    private static void noChange() {
+        check.says(25, "NONE: there is none.");
+        DartHangar h = Check.hands(Check.STONE);
+        for (int what = 0; what <= 2; what++) {
+            check.due(-1, h.change(0, 0, 0, false, what), "no FOLD to change, what " + what);
+        }
+    }
+
+    private static void wrongChange() {
+        check.says(25, "IllegalArgumentException: EARS, another what.");
+        DartHangar h = Check.hands(Check.STONE);
+        for (int way = 0; way <= 1; way++) {
+            int w = way;
+            check.refused(Check.ARGUMENT, "change with EARS 10", () -> h.change(w, 10, 0, true, 0));
+            check.refused(Check.ARGUMENT, "change with EARS -10", () -> h.change(w, -10, 0, true, 0));
+            check.refused(Check.ARGUMENT, "change(.. 3)", () -> h.change(w, 0, 0, true, 3));
+            check.refused(Check.ARGUMENT, "change(.. -1)", () -> h.change(w, 0, 0, true, -1));
+            for (int wild : Check.WILD) {
+                check.refused(Check.ARGUMENT, "change with EARS " + wild, () -> h.change(w, wild, 0, true, 0));
+                check.refused(Check.ARGUMENT, "change(.. " + wild + ")", () -> h.change(w, 0, 0, true, wild));
+            }
+        }
+    }
+
+    private static void changeTerms() {
+        check.says(25, "CHANGES of a WAY (its FOLDS as they are): one FOLD becomes another one, KIND by KIND (nose, side, corner), N 1 to 6,"
+            + " of those that have a MAKE.");
+        // All alike in a stone's air: the first one there is.
+        check.due(2, thrown(8, 6, Check.STONE, 100, 0, 1).change(0, 0, 0, false, 1), "another one than nose 1: nose 2");
+        check.due(1, thrown(8, 6, Check.STONE, 100, 0, 2).change(0, 0, 0, false, 1), "another one than nose 2: nose 1");
+        // 4, 3, 2, 1 ROWS: with nose 2 first, the third nose 1 could not be; with side 1 first, it can.
+        DartHangar few = thrown(4, 3, Check.STONE, 100, 0, 1, 1, 1);
+        check.due(0, few.change(0, 0, 0, false, 0), "the first FOLD");
+        check.due(101, few.change(0, 0, 0, false, 1), "nose 2 would have no MAKE");
+        // The WAY stays as it is, and so do its other FOLDS while one is changed.
+        DartHangar stays = thrown(8, 6, "", 100, 3, 2, 203, 101);
+        long[] want = changeByHand(stays, new int[] {2, 203, 101}, 4, 0, false);
+        check.due(want[2], stays.change(0, 4, 0, false, 2), "REACH of the BEST CHANGE of three FOLDS");
+        int[] codes = {2, 203, 101};
+        for (int i = 0; i < 3; i++) {
+            check.due(codes[i], stays.fold(0, i), "FOLD " + i + " behind change");
+        }
+        // N 6 counts, N 7 and more do not: nose 7 would reach 2212, nose 8 would reach 8551.
+        DartHangar six = thrown(12, 12, "pull 8;turn 27;", 292, 1, 1);
+        check.due(6, six.change(0, -1, 0, false, 1), "nose 6 is the best");
+        DartHangar seven = thrown(23, 6, "", 129, 8, 1);
+        check.due(103, seven.change(0, 6, 0, false, 1), "side 3 is the best up to 6");
+        DartHangar eight = thrown(19, 11, "pull 19;turn 18;", 248, 1, 1);
+        check.due(6, eight.change(0, 6, 0, false, 1), "nose 6 is the best up to 6");
+        check.due(true, thrown(23, 6, "", 129, 8, 7).reach(0, 6, 0, false) > seven.change(0, 6, 0, false, 2), "nose 7 would be better");
+        // A FOLD with N above 6 may become one of up to 6 too.
+        check.due(1, thrown(24, 6, Check.STONE, 100, 0, 12).change(0, 0, 0, false, 1), "nose 12 becomes nose 1");
+        // corner 6 is the last one tried.
+        check.due(206, thrown(21, 10, "", 236, 0, 1).change(0, -5, 0, false, 1), "corner 6 is the best");
+    }
+
+    private static void bestChangeTerms() {
+        check.says(25, "BEST CHANGE by a HAND, EARS as told: that with the greatest REACH; of like ones the first FOLD, KIND, N.");
+        DartHangar alike = thrown(8, 6, Check.STONE, 100, 0, 4, 2);
+        check.due(0, alike.change(0, 0, 0, false, 0), "of like ones the first FOLD");
+        check.due(1, alike.change(0, 0, 0, false, 1), "of like ones the first KIND and N");
+        check.due(2000, alike.change(0, 0, 0, false, 2), "REACH then");
+        // It need not be better than the WAY itself: the best of the others is told.
+        DartHangar good = thrown(23, 8, "pull 12;turn 11;", 171, 6, 206);
+        check.due(true, good.change(0, 4, 0, false, 2) < good.reach(0, 4, 0, false), "a BEST CHANGE that makes it worse");
+        long[] want = changeByHand(good, new int[] {206}, 4, 0, false);
+        for (int what = 0; what <= 2; what++) {
+            check.due(want[what], good.change(0, 4, 0, false, what), "what " + what + " of it");
+        }
+        // By the HAND that is told, for far or for long.
+        DartHangar two = thrown(8, 6, "", 100, 3, 2, 203);
+        two.hand();
+        two.toss(1, 300, 10, 3);
+        two.toss(1, 50, -3, 9);
+        for (int hand = 0; hand <= 1; hand++) {
+            long[] far = changeByHand(two, new int[] {2, 203}, 3, hand, false);
+            check.due(far[2], two.change(0, 3, hand, false, 2), "REACH by HAND " + hand);
+            check.due(far[1], two.change(0, 3, hand, false, 1), "the FOLD by HAND " + hand);
+        }
+        // No THROWS: all alike.
+        two.hand();
+        check.due(1, two.change(0, 3, 2, true, 1), "the first of all by a HAND without THROWS");
+        check.due(0, two.change(0, 3, 2, true, 2), "its REACH");
+    }
+
+    // ---- promise 26
+
     private static void mend() {
-        check.promise(26);
-        DartHangar still = hangar(Check.STONE);
-        check.due(0, still.mend(1, 0, 0, false), "nothing grows");
-        check.due(2, still.fold(1, 0), "the WAY is as it was");
-        check.due(0, still.mend(0, 0, 0, false), "no FOLDS");
-        DartHangar h = hangar("");
+        check.says(26, "MENDED: how many CHANGES were done (the WAY is as they made it).");
+        DartHangar h = Check.hands("");
         int way = Check.way(h, "nose 1;side 1;nose 1;corner 2;");
         int[] codes = {1, 101, 1, 202};
         int done = 0;
         long reached = h.reach(way, 4, 0, false);
         while (done < 4) {
-            long[] best = changeByHand(h, codes, 4, false);
+            DartHangar other = Check.hands("");
+            long[] best = changeByHand(other, codes, 4, 0, false);
             if (best[0] == -1 || best[2] <= reached) {
                 break;
             }
@@ -255,198 +459,36 @@ public final class HandsTest {
             codes[(int) best[0]] = (int) best[1];
             done++;
         }
-        check.due(1, done > 0 ? 1 : 0, "that WAY can be mended");
+        check.due(true, done > 0, "that WAY can be mended");
         check.due(done, h.mend(way, 4, 0, false), "how many CHANGES were done");
         for (int i = 0; i < 4; i++) {
             check.due(codes[i], h.fold(way, i), "FOLD " + i + " as they made it");
         }
         check.due(4, h.fold(way, -1), "as many FOLDS");
         check.due(reached, h.reach(way, 4, 0, false), "REACH then");
+        check.due(2, h.fold(1, 0), "another WAY stays");
         check.refused(Check.ARGUMENT, "mend with EARS -10", () -> h.mend(1, -10, 0, true));
-        check.refused(Check.STATE, "mend without a MAKE", () -> h.mend(2, 10, 0, true));
-        check.refused(Check.NO_ELEMENT, "mend by no HAND", () -> h.mend(2, 10, 2, true));
-        check.refused(Check.NO_ELEMENT, "mend of no WAY", () -> h.mend(-1, 10, 0, true));
+        check.refused(Check.ARGUMENT, "mend with EARS 10", () -> h.mend(1, 10, 0, true));
     }
 
-    private static void hoop() {
-        check.promise(27);
-        DartHangar h = hangar(Check.STONE);
-        // Behind TICK 10: X 1000, Y 1450; behind TICK 20: X 2000, Y -100.
-        check.due(true, h.hoop(0, 0, 100, 0, 1000, 1450, 1450), "at 1000");
-        check.due(true, h.hoop(0, 0, 100, 0, 901, 1450, 9999), "from 901");
-        check.due(false, h.hoop(0, 0, 100, 0, 900, 1450, 1450), "900 is reached a TICK before");
-        check.due(false, h.hoop(0, 0, 100, 0, 1000, 1451, 9999), "below it");
-        check.due(false, h.hoop(0, 0, 100, 0, 1000, 0, 1449), "above it");
-        check.due(false, h.hoop(0, 0, 100, 0, 2000, 0, 9999), "in the floor");
-        check.due(false, h.hoop(0, 0, 100, 0, 2001, 0, 9999), "behind the end");
-        check.due(false, h.hoop(0, 0, 100, 16, 1, 0, 9999), "straight up");
-        check.due(true, h.hoop(0, 0, 100, 0, 1, 0, 9999), "at 1");
-        h.crate(950, 9999);
-        check.due(true, h.hoop(0, 0, 100, 0, 950, 0, 9999), "a CRATE at the HOOP");
-        check.due(false, h.hoop(0, 0, 100, 0, 951, 0, 9999), "a CRATE ahead of it");
-        h.still();
-        h.draught(1, 200, 10);
-        check.due(true, h.hoop(0, 0, 100, 0, 20000, 2000, 2000), "in TICK 200");
-        check.due(false, h.hoop(0, 0, 100, 0, 20001, 2000, 2000), "in TICK 201");
-        h.still();
-        int[][] wrong = {{0, 0, 5}, {100000, 0, 5}, {5, -1, 5}, {5, 0, 10000}, {5, 6, 5}, {5, 10000, 10000}};
-        for (int[] a : wrong) {
-            check.refused(Check.ARGUMENT, "hoop(.. " + a[0] + ", " + a[1] + ", " + a[2] + ")", () -> h.hoop(0, 0, 100, 0, a[0], a[1], a[2]));
-            check.refused(Check.ARGUMENT, "odds(.. " + a[0] + ", " + a[1] + ", " + a[2] + ")", () -> h.odds(0, 0, 0, 1, a[0], a[1], a[2]));
-        }
-        check.due(false, h.hoop(0, 0, 100, 0, 99999, 9999, 9999), "the bounds");
-        check.refused(Check.ARGUMENT, "hoop with EARS 10", () -> h.hoop(0, 10, 100, 0, 1, 0, 1));
-        check.refused(Check.ARGUMENT, "hoop with SPEED 9", () -> h.hoop(0, 0, 9, 0, 1, 0, 1));
-        check.refused(Check.ARGUMENT, "hoop with SLANT -17", () -> h.hoop(0, 0, 10, -17, 1, 0, 1));
-        check.refused(Check.STATE, "hoop without a MAKE", () -> h.hoop(2, 10, 100, 0, 0, 0, 1));
-        check.refused(Check.NO_ELEMENT, "hoop of no WAY", () -> h.hoop(3, 10, 100, 0, 0, 0, 1));
-    }
-
-    private static void odds() {
-        check.promise(28);
-        DartHangar h = hangar(Check.STONE);
-        h.toss(0, 100, 0, 9);
-        h.toss(0, 100, -16, 4);
-        // 11 of 16 go through.
-        long[] want = {0, 11, 256 - 25, 4096 - 125, 65536 - 625};
-        for (int n = 1; n <= 4; n++) {
-            check.due(want[n], h.odds(0, 0, 0, n, 1000, 1450, 1450), "ODDS of " + n + " tries");
-        }
-        check.due(0, h.odds(0, 0, 0, 4, 1000, 1451, 1460), "none goes through");
-        check.due(0, h.odds(0, 0, 1, 4, 1000, 1450, 1450), "no THROWS");
-        check.refused(Check.ARGUMENT, "odds of 0 tries", () -> h.odds(0, 0, 0, 0, 1, 0, 1));
-        check.refused(Check.ARGUMENT, "odds of 5 tries", () -> h.odds(0, 0, 0, 5, 1, 0, 1));
-        check.refused(Check.ARGUMENT, "odds with EARS 10", () -> h.odds(0, 10, 0, 1, 1, 0, 1));
-        check.refused(Check.STATE, "odds without a MAKE", () -> h.odds(2, 10, 0, 0, 0, 0, 1));
-        check.refused(Check.NO_ELEMENT, "odds by no HAND", () -> h.odds(2, 10, 2, 0, 0, 0, 1));
-        check.refused(Check.NO_ELEMENT, "odds of no WAY", () -> h.odds(3, 10, 0, 0, 0, 0, 1));
-    }
-
-    private static void enter() {
-        check.promise(29);
-        DartHangar h = hangar(Check.STONE);
-        check.due(0, h.enter(0, 9, 0), "the first ENTRY");
-        check.due(1, h.enter(2, -9, 1), "an ENTRY without a MAKE, by a HAND without THROWS");
-        check.refused(Check.ARGUMENT, "enter with EARS 10", () -> h.enter(0, 10, 0));
-        check.refused(Check.NO_ELEMENT, "enter of no WAY, wrong EARS", () -> h.enter(3, 10, 0));
-        check.refused(Check.NO_ELEMENT, "enter of no HAND, wrong EARS", () -> h.enter(0, 10, 2));
-        check.due(2, h.count(12), "ENTRIES");
-        check.due(2, h.enter(0, 0, 0), "the third ENTRY");
-        check.due(3, h.enter(0, 0, 0), "the fourth ENTRY");
-        check.due(-1, h.enter(0, 0, 0), "a fifth ENTRY");
-        check.refused(Check.ARGUMENT, "a wrong fifth ENTRY", () -> h.enter(0, 10, 0));
-        check.due(4, h.count(12), "ENTRIES");
-    }
-
-    private static void wins() {
-        check.promise(30);
-        DartHangar h = hangar(Check.STONE);
-        check.refused(Check.NO_ELEMENT, "wins(0)", () -> h.wins(0));
-        h.enter(0, 0, 0);
-        check.due(3, h.wins(0), "one alone wins all its rows");
-        // HAND 1: 100 at 0 (3: FAR 2000), 50 at 0 (5: FAR 1000). HAND 0: FAR 2000 (2), 0 (1).
-        h.toss(1, 100, 0, 3);
-        h.toss(1, 50, 0, 5);
-        h.enter(1, 0, 1);
-        check.due(2 * 5, h.wins(0), "wins(0) of two");
-        check.due((3 + 5) * 1, h.wins(1), "wins(1) of two");
-        h.hand();
-        h.toss(2, 200, 0, 9);
-        h.toss(2, 10, -16, 7);
-        // ENTRY 2: FAR 4000 (9), 0 (7).
-        h.enter(0, 0, 2);
-        check.due(2 * 5 * 7, h.wins(0), "wins(0) of three");
-        check.due(8 * 1 * 7, h.wins(1), "wins(1) of three");
-        check.due(9 * 8 * 3, h.wins(2), "wins(2) of three");
-        h.image(0);
-        h.hand();
-        h.enter(0, 0, 3);
-        check.due(0, h.wins(2), "a HAND without THROWS");
-        h.restore(0);
-        h.enter(2, 0, 0);
-        check.due(0, h.wins(2), "a WAY without a MAKE");
-        h.sheet(10, 6);
-        check.due(9 * 8 * 3 * 3, h.wins(2), "the SHEET gives it one");
-        check.refused(Check.NO_ELEMENT, "wins(4)", () -> h.wins(4));
-        check.refused(Check.NO_ELEMENT, "wins(-1)", () -> h.wins(-1));
-    }
-
-    private static void hours() {
-        check.promise(31);
-        DartHangar h = hangar(Check.STONE);
-        check.due(0, h.hours(0, 9, 0, false, 4001), "below at once");
-        check.due(-1, h.hours(0, 9, 0, false, 4000), "never below");
-        check.due(0, h.hours(0, -9, 0, true, 73), "long");
-        check.due(-1, h.hours(0, 0, 0, true, Long.MIN_VALUE), "the least limit");
-        check.due(0, h.hours(0, 0, 1, true, Long.MAX_VALUE), "the greatest limit");
-        DartHangar lift = hangar("");
-        for (int e = -9; e <= 9; e += 3) {
-            for (int limit = 100; limit < 6000; limit += 270) {
-                int want = -1;
-                for (int hour = 18; hour >= 0; hour--) {
-                    int left = Math.max(0, Math.abs(e) - hour / 2);
-                    want = lift.reach(1, e < 0 ? -left : left, 0, false) < limit ? hour : want;
-                }
-                check.due(want, lift.hours(1, e, 0, false, limit), "hours(1, " + e + ", 0, false, " + limit + ")");
-            }
-        }
-        check.refused(Check.ARGUMENT, "hours with EARS 10", () -> h.hours(0, 10, 0, true, 1));
-        check.refused(Check.STATE, "hours without a MAKE", () -> h.hours(2, 10, 0, true, 1));
-        check.refused(Check.NO_ELEMENT, "hours by no HAND", () -> h.hours(2, 10, 2, true, 1));
-        check.refused(Check.NO_ELEMENT, "hours of no WAY", () -> h.hours(3, 10, 0, true, 1));
-    }
-
-    private static void seen() {
-        check.promise(32);
-        DartHangar h = hangar(Check.STONE);
-        check.due((1 << 19) - 1, h.seen(0, 100, 0, 2000, 20), "all EARS");
-        check.due(0, h.seen(0, 100, 0, 2000, 19), "another LONG");
-        check.due(0, h.seen(0, 100, 0, 1999, 20), "another FAR");
-        DartHangar lift = hangar("");
-        for (int e = -9; e <= 9; e++) {
-            int far = lift.fly(1, e, 300, 4, 0);
-            int lasted = lift.fly(1, e, 300, 4, 1);
-            int want = 0;
-            for (int k = -9; k <= 9; k++) {
-                if (lift.fly(1, k, 300, 4, 0) == far && lift.fly(1, k, 300, 4, 1) == lasted) {
-                    want |= 1 << (k + 9);
-                }
-            }
-            check.due(want, lift.seen(1, 300, 4, far, lasted), "EARS of what EARS " + e + " make");
-        }
-        check.refused(Check.ARGUMENT, "seen with SPEED 9", () -> h.seen(0, 9, 0, 0, 0));
-        check.refused(Check.ARGUMENT, "seen with SPEED 1000", () -> h.seen(0, 1000, 0, 0, 0));
-        check.refused(Check.ARGUMENT, "seen with SLANT 17", () -> h.seen(0, 10, 17, 0, 0));
-        check.refused(Check.STATE, "seen without a MAKE", () -> h.seen(2, 9, 0, 0, 0));
-        check.refused(Check.NO_ELEMENT, "seen of no WAY", () -> h.seen(3, 9, 0, 0, 0));
-    }
-
-    private static void dueFound(DartHangar h, int area, int front, int... want) {
-        for (int i = 0; i < 3; i++) {
-            check.due(i < want.length ? want[i] : -1, h.found(area, front, i - 1), "found(" + area + ", " + front + ", " + (i - 1) + ")");
-        }
-        check.due(-1, h.found(area, front, 2), "found(.. 2)");
-        check.due(-1, h.found(area, front, -2), "found(.. -2)");
-    }
-
-    private static void found() {
-        check.promise(33);
-        DartHangar h = new DartHangar();
-        dueFound(h, 48, 384, 0);
-        dueFound(h, 36, 240, 1, 2);
-        // side 2: 8 ROWS of 4 COLUMNS; also two times side 1, but by more FOLDS.
-        dueFound(h, 32, 384, 1, 102);
-        // nose 1 (42 CELLS, 7 ROWS) and side 1 (7 by 5): G is that of nose 1: 48 LAYERS, 2 in ROW 0: 6 (2 + 3 + .. + 13) = 300.
-        dueFound(h, 35, 300, 2, 1, 101);
-        dueFound(h, 1, 1, -1);
-        dueFound(h, 48, 385, -1);
-        dueFound(h, -1, Integer.MIN_VALUE, -1);
-        h.sheet(4, 3);
-        dueFound(h, 12, 48, 0);
-        dueFound(h, 48, 384, -1);
-        dueFound(h, 9, 56, 1, 203);
-        Check.way(h, "nose 2;");
-        h.found(9, 56, 0);
-        check.due(2, h.fold(0, 0), "a WAY behind found");
+    private static void mendTerms() {
+        check.says(26, "MENDED: BEST CHANGE is done as long as REACH grows, at most 4 times.");
+        DartHangar still = Check.hands(Check.STONE);
+        check.due(0, still.mend(1, 0, 0, false), "a like REACH does not grow");
+        check.due(2, still.fold(1, 0), "the WAY is as it was");
+        check.due(0, still.mend(0, 0, 0, false), "no FOLDS");
+        check.due(0, still.mend(1, 0, 1, true), "no THROWS");
+        // Six CHANGES would make it better: four are done, then two.
+        DartHangar six = thrown(20, 12, "", 284, 1, 1, 101, 202, 202);
+        check.due(4, six.mend(0, -5, 0, false), "four of six");
+        check.due(2, six.mend(0, -5, 0, false), "the other two");
+        check.due(0, six.mend(0, -5, 0, false), "none any more");
+        // Just three, and none behind them.
+        DartHangar three = thrown(20, 11, "", 162, 4, 101, 202, 1, 202);
+        long was = three.reach(0, 9, 0, false);
+        check.due(3, three.mend(0, 9, 0, false), "three");
+        check.due(true, three.reach(0, 9, 0, false) > was, "REACH grew");
+        check.due(true, three.change(0, 9, 0, false, 2) <= three.reach(0, 9, 0, false), "no CHANGE makes it grow any more");
+        check.due(0, three.mend(0, 9, 0, false), "none any more");
     }
 }
