@@ -1238,7 +1238,10 @@ public final class DartHangar {
             long drag = force(stock.rule[DRAG + bend], q);
             ticks++;
             turnNose((ears * q - paper.lever * lift) * stock.rule[TURN] / 1000);
-            push(path, lift, drag);
+            int sin = sine(path);
+            int cos = cosine(path);
+            vx = keptWithin(vx + (-drag * cos - lift * sin) / 1000, 2000);
+            vy = keptWithin(vy + (-drag * sin + lift * cos) / 1000 - pullNow(), 2000);
             move();
             noteEnd();
         }
@@ -1256,13 +1259,6 @@ public final class DartHangar {
             if (spin < -2 || spin > 2) {
                 lastUneven = ticks;
             }
-        }
-
-        private void push(int path, long lift, long drag) {
-            int sin = sine(path);
-            int cos = cosine(path);
-            vx = keptWithin(vx + (-drag * cos - lift * sin) / 1000, 2000);
-            vy = keptWithin(vy + (-drag * sin + lift * cos) / 1000 - pullNow(), 2000);
         }
 
         private int pullNow() {

@@ -321,6 +321,16 @@ public final class ContestsTest {
         h.tray(0, 0, 0);
         h.take(0, 0);
         check.due(0, h.wins(0), "THROWS that were taken away");
+        // A WAY without a MAKE and a HAND without THROWS that no ENTRY has do no harm.
+        DartHangar others = new DartHangar();
+        Check.law(others, Check.STONE);
+        Check.way(others, "nose 5;");
+        Check.way(others, "nose 2;");
+        others.hand();
+        others.hand();
+        others.toss(1, 100, 0, 4);
+        others.enter(1, 0, 1);
+        check.due(4, others.wins(0), "WINS beside a WAY without a MAKE");
     }
 
     // ---- promise 31
@@ -517,6 +527,8 @@ public final class ContestsTest {
         // By three FOLDS alone: nose 1, nose 1, side 1: 2 by 2 CELLS, G 3 3 + 3 3.
         dueFound(h, 4, 18, -1);
         dueByHand(5, 4);
+        // The first of all FOLDS as the second one: 6 (3 + 3 + 5 + 7 + 9 + 11).
+        dueFound(new DartHangar(), 36, 228, 2, 1, 1);
         // N up to 6: nose 6 of 24 by 12 is found, nose 12 (12 ROWS of 2 LAYERS: 24 144) is not; nor is nose 7.
         DartHangar large = Check.folded(24, 12, "nose 6;");
         Check.way(large, "nose 7;");
@@ -541,7 +553,9 @@ public final class ContestsTest {
                 if (h.breaks(way) == -1) {
                     int area = h.make(way, 2);
                     int front = h.make(way, 4);
-                    int first = h.found(area, front, -1) == 2 ? h.found(area, front, 0) : 0;
+                    int many = h.found(area, front, -1);
+                    check.due(true, many >= 0 && many <= 2, "how many FOLDS make " + area + ", " + front);
+                    int first = many == 2 ? h.found(area, front, 0) : 0;
                     int second = h.found(area, front, 1);
                     int code = 100 * (f / 6) + f % 6 + 1;
                     int other = 100 * (g / 6) + g % 6 + 1;

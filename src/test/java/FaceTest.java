@@ -94,6 +94,22 @@ public final class FaceTest {
             check.due(true, Modifier.isPrivate(inner.getModifiers()) && Modifier.isStatic(inner.getModifiers()), inner.getName() + " is private and static");
         }
         check.due(true, DartHangar.class.getDeclaredClasses().length <= 11, "at most twelve classes");
+        small(DartHangar.class);
+        for (Class<?> inner : DartHangar.class.getDeclaredClasses()) {
+            small(inner);
+        }
+    }
+
+    /** At most seven parameters a method, some twenty fields a class beside its constants. */
+    private static void small(Class<?> one) {
+        int fields = 0;
+        for (Field f : one.getDeclaredFields()) {
+            fields += Modifier.isStatic(f.getModifiers()) ? 0 : 1;
+        }
+        check.due(true, fields <= 20, one.getName() + " has few fields (" + fields + ")");
+        for (Method m : one.getDeclaredMethods()) {
+            check.due(true, m.getParameterCount() <= 7, m.getName() + " has few parameters");
+        }
     }
 
     private static String told(Method m) {

@@ -274,6 +274,8 @@ public final class FlightsTest {
             check.due(e < 0 ? -3 : 3, three.at(0, e, 500, 0, 100, 5), "SPIN by turn 10");
             check.due(-1, three.fly(0, e, 500, 0, 5), "EVEN with a SPIN of 3, EARS " + e);
         }
+        // What an earlier FLIGHT was like does not count.
+        check.due(1, three.fly(0, 0, 500, 0, 5), "EVEN with EARS 0 behind a FLIGHT that was not");
         // 20 TICKS just are enough, 19 are not.
         two.crate(500 * 20, 9999);
         check.due(1, two.fly(0, 9, 500, 0, 5), "EVEN of 20 TICKS");
@@ -495,6 +497,9 @@ public final class FlightsTest {
         h.damp(2);
         check.due(463, h.at(1, 0, 500, 0, 1, 2), "VX with DAMP 2");
         check.due(149, h.at(1, 0, 500, 0, 1, 3), "VY with DAMP 2");
+        // 288 and 144: DRAG 3 250 288 by 432 is just 500; of 100, 1 is just 1: DRAG 4 250 100 by 101 is 990.
+        dueDampDrag(24, 12, 50, 3, 500);
+        dueDampDrag(10, 10, 1, 4, 990);
         // WEIGHT and LEVER of the MAKE stay.
         h.damp(50);
         int[] want = {6, 6, 36, 48, 240, 216, 10};
@@ -509,6 +514,14 @@ public final class FlightsTest {
         // 49 10 2 = 980 with DAMP 3: above 360 2 = 720, below 360 3 = 1080.
         h.damp(3);
         check.due(101, h.rest(1, 2, 0), "a REST between 1 and 2 with DAMP 3");
+    }
+
+    /** What DRAG takes of SPEED 500 in TICK 1, on a whole SHEET of this size, thin being 1. */
+    private static void dueDampDrag(int rows, int columns, int damp, int drag, int want) {
+        DartHangar h = Check.folded(rows, columns, "");
+        Check.law(h, "turn 0;thin 1;drag " + drag + " 0 0 0 0 0 0 0 0;");
+        h.damp(damp);
+        check.due(500 - want, h.at(0, 0, 500, 0, 1, 2), "VX with DAMP " + damp + " on " + rows + " by " + columns);
     }
 
     // ---- promise 17

@@ -227,6 +227,8 @@ public final class SheetTest {
             dueBreak(-1, 4, columns, "side " + columns / 2 + ";");
             dueBreak(0, 4, columns, "side " + (columns / 2 + 1) + ";");
         }
+        dueBreak(-1, 24, 12, "side 6;");
+        dueBreak(-1, 24, 12, "nose 12;side 6;side 3;");
         dueBreak(-1, 4, 8, "side 4;side 2;side 1;");
         dueBreak(1, 4, 8, "side 4;side 3;");
         dueBreak(3, 4, 8, "side 4;side 2;side 1;side 1;");

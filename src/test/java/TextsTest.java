@@ -196,7 +196,8 @@ public final class TextsTest {
     private static void kinds() {
         check.says(4, "KIND: nose, side, corner.");
         dueFault(0, -1, "nose 1;side 1;corner 1;", true);
-        for (String word : new String[] {"noses", "nos", "sid", "sides", "corne", "corners", "lift", "pull", "z", "a"}) {
+        for (String word : new String[] {"noses", "nos", "sid", "sides", "corne", "corners", "lift", "pull", "z", "a",
+            "xose", "nxse", "nosx", "xide", "sidx", "xorner", "cornex"}) {
             dueFault(2, 7, "nose 1;" + word + " 1;", true);
         }
     }
@@ -319,6 +320,9 @@ public final class TextsTest {
         dueFault(2, 0, "nose 1;", false);
         dueFault(2, 0, "lifts 1;", false);
         dueFault(2, 0, "pul 1;", false);
+        for (String word : new String[] {"xift", "lifx", "xrag", "drax", "xull", "pulx", "xhin", "thix", "xurn", "turx", "xlow", "slox", "xoof", "roox"}) {
+            dueFault(2, 0, word + " 10;", false);
+        }
     }
 
     private static void liftAndDrag() {

@@ -178,8 +178,60 @@ public final class TicksTest {
         check.due(97, inTick2(aside, 97, 25), "VX of (97, 15): PATH 2");
         check.due(97, inTick2(aside, 97, -4), "VX of (97, -14): PATH 62");
         check.due(97 - 886, inTick2(aside, 97, -3), "VX of (97, -13): PATH 63");
+        pathBetweenAllSteps();
         pathBackwards();
         pathUpAndDown();
+    }
+
+    /** Where two directions beside each other are alike, all round a quarter: VX is one's rise, VY the other's. */
+    private static void pathBetweenAllSteps() {
+        for (int k = 1; k <= 7; k++) {
+            int vx = ROUND[k + 1] - ROUND[k];
+            int vy = ROUND[16 - k] - ROUND[15 - k];
+            // NOSE 0: DRAG of ATTACK k alone.
+            String law = "turn 0;thin 1;lift 0 0 0 0 0 0 0 0 0;" + dragOf(k);
+            check.due(true, aside(law, vx, vy), "(" + vx + ", " + vy + "): PATH " + k);
+            check.due(false, aside(law, vx, vy + 1), "(" + vx + ", " + (vy + 1) + "): PATH " + (k + 1));
+            check.due(false, aside(law, vx, -vy), "(" + vx + ", " + -vy + "): PATH " + (63 - k));
+            check.due(true, aside(law, vx, 1 - vy), "(" + vx + ", " + (1 - vy) + "): PATH " + (64 - k));
+        }
+        for (int k = 8; k <= 14; k++) {
+            int vx = ROUND[k + 1] - ROUND[k];
+            int vy = ROUND[16 - k] - ROUND[15 - k];
+            // NOSE 16 (or 48): LIFT of ATTACK 0 pushes aside in TICK 1; DRAG of ATTACK 15 - k alone, in TICK 2.
+            for (int slant = -16; slant <= 16; slant += 32) {
+                int sign = slant < 0 ? -1 : 1;
+                for (int more = 0; more <= 1; more++) {
+                    int q = vy * vy / 1000;
+                    DartHangar h = weightless("turn 0;thin " + q + ";lift " + (vx + more) + " 0 0 0 0 0 0 0 0;" + dragOf(15 - k));
+                    check.due(-sign * (vx + more), h.at(0, 0, vy, slant, 1, 2), "VX behind TICK 1");
+                    check.due(sign * vy, h.at(0, 0, vy, slant, 1, 3), "VY behind TICK 1");
+                    boolean dragged = h.at(0, 0, vy, slant, 2, 3) != sign * vy;
+                    check.due(more == 0, dragged, "(" + -sign * (vx + more) + ", " + sign * vy + "): ATTACK " + (k - 15 - more));
+                }
+            }
+        }
+    }
+
+    private static String dragOf(int attack) {
+        StringBuilder line = new StringBuilder("drag");
+        for (int i = 0; i <= 8; i++) {
+            line.append(i == attack ? " 99" : " 0");
+        }
+        return line.append(';').toString();
+    }
+
+    /** Whether DRAG shows in TICK 2 of a SPEED at SLANT 0, VY being so much behind TICK 1. */
+    private static boolean aside(String law, int speed, int vy) {
+        DartHangar h = Check.hangar(law + "pull 1;");
+        int up = vy + 1;
+        for (int i = 0; i < 4; i++) {
+            int part = Math.max(-20, Math.min(20, up));
+            h.draught(1, 1, part);
+            up -= part;
+        }
+        check.due(vy, h.at(0, 0, speed, 0, 1, 3), "VY behind TICK 1");
+        return h.at(0, 0, speed, 0, 2, 2) != speed;
     }
 
     /** VX behind TICK 2 of a SPEED at SLANT 0, VY being 10 less than up behind TICK 1. */

@@ -211,6 +211,18 @@ public final class TraysAndImagesTest {
         check.due(0, h.take(2, 1), "an empty TRAY");
         check.due(0, h.reach(0, 0, 1, true), "REACH without THROWS");
         check.due(1, h.toss(1, 10, 0, 1), "the first THROW again");
+        // THROWS that were there before count no more, neither for ODDS nor for WINS.
+        h.take(1, 1);
+        fill(h, 2, 2, 100, 0, 1);
+        check.due(1, h.take(2, 1), "one THROW in place of four");
+        check.due(1, h.odds(0, 0, 1, 2, 1000, 1450, 1450), "ODDS of two tries by it");
+        check.due(0, h.odds(0, 0, 1, 2, 1000, 0, 1449), "ODDS of two tries by it, of a HOOP below");
+        h.enter(0, 0, 1);
+        check.due(1, h.wins(0), "WINS by it");
+        h.hand();
+        h.toss(2, 200, 0, 1);
+        h.enter(0, 0, 2);
+        check.due(1, h.wins(1), "WINS against it");
         // The TRAY stays, and what is written later is not thrown.
         h.write(0, 0, 50);
         check.due(5000, h.reach(0, 0, 0, false), "REACH by what was taken");
